@@ -291,7 +291,8 @@ public final class Glyphmill {
         runTable.divide();
         glyphTable.form(font);
         parts.cut();
-        lineTable.find(lineWidth);
+        lineTable.fit(lineWidth);
+        lineTable.find();
         rows.arrange(base);
         isStale = false;
     }
@@ -811,17 +812,9 @@ public final class Glyphmill {
             return tooWide == NONE;
         }
 
-        void find(int lineWidth) {
+        void fit(int lineWidth) {
             width = lineWidth;
             tooWide = parts.isBlank ? NONE : firstTooWide();
-            size = 0;
-            total = 0;
-            if (arePossible() && !parts.isBlank) {
-                extendBestFirst();
-                total = best[parts.size];
-                size = counts[parts.size];
-                traceBack();
-            }
         }
 
         private int firstTooWide() {
@@ -865,7 +858,21 @@ public final class Glyphmill {
         }
 
         /** No line is without demerits, so a beginning that is extended can't become better any more. */
-        private void extendBestFirst() {
+        void find() {
+            forgetBeginnings();
+            for (int round = 0; round < parts.size && arePossible() && !parts.isBlank; round++) {
+                int from = bestBeginning();
+                if (from != NONE) {
+                    areExtended[from] = true;
+                    extend(from);
+                }
+            }
+            size = counts[parts.size];
+            total = best[parts.size] == NONE ? 0 : best[parts.size];
+            traceBack();
+        }
+
+        private void forgetBeginnings() {
             Arrays.fill(best, NONE);
             Arrays.fill(counts, 0);
             Arrays.fill(befores, 0);
@@ -873,13 +880,6 @@ public final class Glyphmill {
                 areExtended[i] = false;
             }
             best[0] = 0;
-            for (int round = 0; round < parts.size; round++) {
-                int from = bestBeginning();
-                if (from != NONE) {
-                    areExtended[from] = true;
-                    extend(from);
-                }
-            }
         }
 
         private int bestBeginning() {
