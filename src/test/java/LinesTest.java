@@ -257,6 +257,15 @@ public final class LinesTest {
         Glyphmill mill = mill(10, "a a a aaa");
         mill.setWidth('a', 3);
         dueLines(mill, "the same sum with as many lines", 100020003, "0 2 6", "3 10 9", "10000 0 0");
+        Glyphmill more = mill(10, "a a a a a aaa");
+        more.setWidth('a', 3);
+        dueLines(more, "the same sum in three ways", 100020004, "0 2 6 10", "3 10 10 9", "10000 0 0 0");
+        Glyphmill shrunk = mill(10, "b c a b c d");
+        shrunk.setWidth(' ', 1);
+        shrunk.setWidth('a', 1);
+        shrunk.setWidth('c', 5);
+        shrunk.setWidth('d', 10);
+        dueLines(shrunk, "the same sum with the other line shrunk", 10203, "0 4 10", "10 12 10", "0 100 0");
         Glyphmill longer = mill(10, "aaa a a a aaa a a a aaa");
         longer.setWidth('a', 3);
         dueLines(longer, "the same sums twice", 400080007, "0 4 6 10 14 16 20", "9 3 10 9 3 10 9",
@@ -293,6 +302,15 @@ public final class LinesTest {
         // ten in each line; each line but the last adds a hyphen's demerits, and each but the first 3000 more
         Check.due("demerits of 50 hyphens", 4 * 2501 + 3 * 3000 + 1, most::demerits);
         Check.due("lines of 50 hyphens", 5, most::lines);
+        most.setWidth('-', 10);
+        Check.due("50 lines", 50, most::lines);
+        Check.due("first fit of 50 lines", 50, most::linesByFirstFit);
+        Check.due("demerits of 50 lines", 49 * 2501 + 48 * 3000 + 1, most::demerits);
+        Check.due("firstOf the last of 50 lines", 49, () -> most.firstOf(49));
+        Check.due("firstOf behind 50 lines", Check.INDEX, () -> most.firstOf(50));
+        Check.due("lineOf in 50 lines", 31, () -> most.lineOf(31));
+        most.setWidth('-', 11);
+        Check.due("50 parts that are too wide", 0, most::tooWide);
     }
 
     private static void refusals() {
