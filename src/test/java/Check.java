@@ -1,7 +1,8 @@
-import java.util.NoSuchElementException;
+import java.util.ArrayList;
+import java.util.List;
 
-/** What the tests share: comparing answers, telling what was wrong, and reading all answers of an object. */
-final class Check {
+/** What the tests share: the calls with their names, comparing answers, and telling what was wrong. */
+class Check {
     static final String INDEX = "IndexOutOfBoundsException";
     static final String UNSUPPORTED = "UnsupportedOperationException";
     static final String STATE = "IllegalStateException";
@@ -9,14 +10,48 @@ final class Check {
     static final String NO_ELEMENT = "NoSuchElementException";
     static final String ARITHMETIC = "ArithmeticException";
 
+    static final String LETTERS = "abcdefghijklmnopqrstuvwxyzABCDEFGHIJKLMNOPQRSTUVWXYZ";
+    static final String NEUTRALS = " -,.";
+    static final String SHOWN = LETTERS + "0123456789" + NEUTRALS;
+    static final String MARKS = "[{}";
+    static final int LEAST = Integer.MIN_VALUE;
+    static final int MOST = Integer.MAX_VALUE;
+
+    private static String sentence = "";
     private static int asked = 0;
     private static int wrong = 0;
+    private static int askedAhead = 0;
 
     interface Call {
         Object make();
     }
 
-    private Check() {
+    interface OfIndex {
+        Ask of(int index);
+    }
+
+    // ---- telling what is wrong
+
+    /** The sentence of the document that the answers from here on are about. */
+    static void says(String words) {
+        endSentence();
+        sentence = words;
+        askedAhead = asked;
+    }
+
+    private static void endSentence() {
+        if (!sentence.isEmpty() && asked == askedAhead) {
+            wrong++;
+            System.out.println("no answer was looked at for: " + sentence);
+        }
+    }
+
+    private static void compare(Object where, Object what, String got, Object want) {
+        asked++;
+        if (!got.equals(String.valueOf(want))) {
+            wrong++;
+            System.out.println("\"" + sentence + "\" " + where + ": " + what + " answered " + got + ", due is " + want);
+        }
     }
 
     /** The answer as a text, or the name of the exception that the call throws. */
@@ -28,114 +63,145 @@ final class Check {
         }
     }
 
+    static String answer(Glyphmill mill, Ask ask) {
+        return answer(() -> ask.put(mill));
+    }
+
+    /** The object, or null if a call that makes it is refused: then that is told as wrong. */
+    private static Glyphmill made(Mill mill) {
+        try {
+            return mill.make();
+        } catch (RuntimeException e) {
+            compare(mill, "making it", e.getClass().getSimpleName(), "no exception");
+            return null;
+        }
+    }
+
     static void due(String what, Object want, Call call) {
-        asked++;
-        String got = answer(call);
-        if (!got.equals(String.valueOf(want))) {
-            wrong++;
-            System.out.println(what + " answered " + got + ", due is " + want);
+        compare("", what, answer(call), want);
+    }
+
+    static void due(Mill mill, Ask ask, Object want) {
+        Glyphmill made = made(mill);
+        if (made != null) {
+            compare(mill, ask, answer(made, ask), want);
         }
     }
 
-    /** A call that throws this exception and changes nothing. */
-    static void refuses(Glyphmill mill, String what, String exception, Call call) {
-        String before = everything(mill);
-        due(what, exception, call);
-        due(what + " changes nothing", before, () -> everything(mill));
-    }
-
-    static Glyphmill mill(String text) {
-        Glyphmill mill = new Glyphmill();
-        type(mill, text);
-        return mill;
-    }
-
-    static void type(Glyphmill mill, String text) {
-        for (char c : text.toCharArray()) {
-            mill.add(c);
+    /** The answers for all indices of a text: m stands for a mark, - for what has no place and no line. */
+    static void dueEach(Mill mill, OfIndex question, String want) {
+        Glyphmill made = made(mill);
+        if (made == null) {
+            return;
         }
-    }
-
-    /** The answers for all indices of a text, one behind the other; m stands for a mark. */
-    static String each(Glyphmill mill, OfIndex question) {
         StringBuilder all = new StringBuilder();
-        for (int i = 0; i < mill.length(); i++) {
-            int index = i;
-            String one = answer(() -> question.of(index));
+        for (int i = 0; i < made.length(); i++) {
+            String one = answer(made, question.of(i));
             all.append(i > 0 ? " " : "").append(one.equals(UNSUPPORTED) ? "m" : one.equals(NO_ELEMENT) ? "-" : one);
         }
-        return all.toString();
+        compare(mill, question.of(0) + " and so on", all.toString(), want);
     }
 
-    interface OfIndex {
-        Object of(int index);
-    }
-
-    static String levels(Glyphmill mill) {
-        return each(mill, mill::levelOf);
-    }
-
-    /** All that can be asked of an object, with a few indices and ranks outside. */
-    static String everything(Glyphmill mill) {
+    /** The answers for the first numbers from 0 on: as many as the wanted text has words, and no more. */
+    static void dueRow(Mill mill, OfIndex question, String want) {
+        Glyphmill made = made(mill);
+        if (made == null) {
+            return;
+        }
+        int size = want.isEmpty() ? 0 : want.split(" ").length;
         StringBuilder all = new StringBuilder();
-        tell(all, "length", mill::length);
-        tell(all, "open", mill::open);
-        tell(all, "runs", mill::runs);
-        tell(all, "glyphs", mill::glyphs);
-        tell(all, "breaks", mill::breaks);
-        tell(all, "tooWide", mill::tooWide);
-        tell(all, "excess", mill::excess);
-        tell(all, "lines", mill::lines);
-        tell(all, "linesByFirstFit", mill::linesByFirstFit);
-        tell(all, "demerits", mill::demerits);
-        tell(all, "demeritsByTrying", mill::demeritsByTrying);
-        tell(all, "linesByTrying", mill::linesByTrying);
-        tell(all, "hyphenShare", mill::hyphenShare);
-        tell(all, "meanBadness", mill::meanBadness);
-        for (int i = -1; i <= mill.length(); i++) {
-            tellIndex(all, mill, i);
+        for (int i = 0; i < size; i++) {
+            all.append(i > 0 ? " " : "").append(answer(made, question.of(i)));
         }
-        for (int r = -1; r <= mill.breaks(); r++) {
-            int rank = r;
-            tell(all, "breakAt " + r, () -> mill.breakAt(rank));
+        compare(mill, question.of(0) + " and so on", all.toString(), want);
+        for (int i : new int[] {-1, size, size + 1, LEAST, MOST}) {
+            compare(mill, question.of(i), answer(made, question.of(i)), INDEX);
         }
-        int lines = mill.tooWide() == -1 ? mill.lines() : 1;
+    }
+
+    /** A call that throws this exception and changes nothing, asked by all other calls. */
+    static void refused(Mill mill, Ask ask, String exception) {
+        due(mill, ask, exception);
+        if (made(mill) == null) {
+            return;
+        }
+        Ask quietly = new Ask(ask.name() + " refused", m -> answer(m, ask));
+        String before = everything(mill) + probes(mill);
+        String behind = everything(mill.then(quietly)) + probes(mill.then(quietly));
+        compare(mill, "what changed behind " + ask, firstDifference(behind, before), "none");
+    }
+
+    static void end() {
+        endSentence();
+        System.out.println(asked + " answers looked at, " + wrong + " wrong");
+        if (asked == 0 || wrong > 0) {
+            System.exit(1);
+        }
+    }
+
+    // ---- all answers of an object
+
+    /** The answers to each question that can be asked of an object, with a few indices and ranks outside. */
+    static String everything(Mill mill) {
+        return answers(mill, questions(mill));
+    }
+
+    static List<Ask> questions(Mill mill) {
+        Glyphmill made = mill.make();
+        List<Ask> all = new ArrayList<>(List.of(length(), open(), runs(), glyphs(), breaks(), tooWide(), excess(),
+                lines(), linesByFirstFit(), demerits(), demeritsByTrying(), linesByTrying(), hyphenShare(),
+                meanBadness()));
+        for (int i = -1; i <= made.length(); i++) {
+            all.addAll(List.of(charAt(i), embeddingOf(i), levelOf(i), scriptOf(i), runOf(i), glyphOf(i),
+                    glyphStart(i), lineOf(i), rankOf(i), rankByCounting(i), placeOf(i), justifiedWidth(i)));
+        }
+        for (int r = -1; r <= made.breaks(); r++) {
+            all.add(breakAt(r));
+        }
+        int lines = made.tooWide() == -1 ? made.lines() : 1;
         for (int l = -1; l <= lines; l++) {
-            tellLine(all, mill, l);
+            all.addAll(List.of(firstOf(l), widthOf(l), badnessOf(l), glyphsOf(l)));
+            String size = answer(made, glyphsOf(l));
+            int ranks = Character.isDigit(size.charAt(0)) ? Integer.parseInt(size) : 0;
+            for (int r = -1; r <= ranks; r++) {
+                all.add(glyphAt(l, r));
+            }
+        }
+        return all;
+    }
+
+    /** What changing calls tell of an object: the widths, the line width, the base level, the rules and the text. */
+    static String probes(Mill mill) {
+        List<Ask> all = new ArrayList<>(List.of(setLine(10), setBase(true)));
+        for (char c : SHOWN.toCharArray()) {
+            all.add(setWidth(c, 1));
+        }
+        all.addAll(List.of(add('}'), add('['), addLigature('q', 'Q', 3), addLigature('a', 'b', 3),
+                addLigature('f', 'i', 3), addLigature(200, 'a', 3), addLigature(219, 'z', 3)));
+        for (int i = mill.make().length() + 2; i >= 0; i--) {
+            all.add(removeLast());
+        }
+        return answers(mill, all.subList(0, Math.min(all.size(), Mill.MOST_CALLS - mill.calls())));
+    }
+
+    /** One answer a line; a new object as soon as the one before has had its calls. */
+    private static String answers(Mill mill, List<Ask> questions) {
+        StringBuilder all = new StringBuilder();
+        Glyphmill made = null;
+        int left = 0;
+        for (Ask question : questions) {
+            if (left == 0) {
+                made = mill.make();
+                left = Mill.MOST_CALLS - mill.calls();
+            }
+            tell(all, question.name(), answer(made, question));
+            left--;
         }
         return all.toString();
     }
 
-    private static void tellIndex(StringBuilder all, Glyphmill mill, int i) {
-        tell(all, "charAt " + i, () -> mill.charAt(i));
-        tell(all, "embeddingOf " + i, () -> mill.embeddingOf(i));
-        tell(all, "levelOf " + i, () -> mill.levelOf(i));
-        tell(all, "scriptOf " + i, () -> mill.scriptOf(i));
-        tell(all, "runOf " + i, () -> mill.runOf(i));
-        tell(all, "glyphOf " + i, () -> mill.glyphOf(i));
-        tell(all, "glyphStart " + i, () -> mill.glyphStart(i));
-        tell(all, "lineOf " + i, () -> mill.lineOf(i));
-        tell(all, "rankOf " + i, () -> mill.rankOf(i));
-        tell(all, "rankByCounting " + i, () -> mill.rankByCounting(i));
-        tell(all, "placeOf " + i, () -> mill.placeOf(i));
-        tell(all, "justifiedWidth " + i, () -> mill.justifiedWidth(i));
-    }
-
-    private static void tellLine(StringBuilder all, Glyphmill mill, int l) {
-        tell(all, "firstOf " + l, () -> mill.firstOf(l));
-        tell(all, "widthOf " + l, () -> mill.widthOf(l));
-        tell(all, "badnessOf " + l, () -> mill.badnessOf(l));
-        tell(all, "glyphsOf " + l, () -> mill.glyphsOf(l));
-        String size = answer(() -> mill.glyphsOf(l));
-        int ranks = Character.isDigit(size.charAt(0)) ? Integer.parseInt(size) : 0;
-        for (int r = -1; r <= ranks; r++) {
-            int rank = r;
-            tell(all, "glyphAt " + l + " " + r, () -> mill.glyphAt(l, rank));
-        }
-    }
-
-    static void tell(StringBuilder all, String what, Call call) {
-        all.append(what).append(" = ").append(answer(call)).append('\n');
+    static void tell(StringBuilder all, String what, String answer) {
+        all.append(what).append(" = ").append(answer).append('\n');
     }
 
     /** The first line in which two tellings differ. */
@@ -150,14 +216,159 @@ final class Check {
         return ones.length == others.length ? "none" : "one has more lines";
     }
 
-    static void end() {
-        System.out.println(asked + " answers looked at, " + wrong + " wrong");
-        if (asked == 0 || wrong > 0) {
-            System.exit(1);
-        }
+    // ---- the calls
+
+    static Ask add(char c) {
+        String told = c > ' ' && c < 127 ? "'" + c + "'" : "(char) " + (int) c;
+        return new Ask("add(" + told + ")", m -> m.add(c));
     }
 
-    static NoSuchElementException none() {
-        return new NoSuchElementException();
+    static Ask removeLast() {
+        return new Ask("removeLast()", Glyphmill::removeLast);
+    }
+
+    static Ask setWidth(char c, int width) {
+        return new Ask("setWidth((char) " + (int) c + ", " + width + ")", m -> m.setWidth(c, width));
+    }
+
+    static Ask setLine(int width) {
+        return new Ask("setLine(" + width + ")", m -> m.setLine(width));
+    }
+
+    static Ask setBase(boolean isRight) {
+        return new Ask("setBase(" + isRight + ")", m -> m.setBase(isRight));
+    }
+
+    static Ask addLigature(int first, char second, int width) {
+        return new Ask("addLigature(" + first + ", (char) " + (int) second + ", " + width + ")",
+                m -> m.addLigature(first, second, width));
+    }
+
+    static Ask length() {
+        return new Ask("length()", Glyphmill::length);
+    }
+
+    static Ask charAt(int index) {
+        return new Ask("charAt(" + index + ")", m -> m.charAt(index));
+    }
+
+    static Ask open() {
+        return new Ask("open()", Glyphmill::open);
+    }
+
+    static Ask embeddingOf(int index) {
+        return new Ask("embeddingOf(" + index + ")", m -> m.embeddingOf(index));
+    }
+
+    static Ask levelOf(int index) {
+        return new Ask("levelOf(" + index + ")", m -> m.levelOf(index));
+    }
+
+    static Ask scriptOf(int index) {
+        return new Ask("scriptOf(" + index + ")", m -> m.scriptOf(index));
+    }
+
+    static Ask runOf(int index) {
+        return new Ask("runOf(" + index + ")", m -> m.runOf(index));
+    }
+
+    static Ask runs() {
+        return new Ask("runs()", Glyphmill::runs);
+    }
+
+    static Ask glyphOf(int index) {
+        return new Ask("glyphOf(" + index + ")", m -> m.glyphOf(index));
+    }
+
+    static Ask glyphStart(int index) {
+        return new Ask("glyphStart(" + index + ")", m -> m.glyphStart(index));
+    }
+
+    static Ask glyphs() {
+        return new Ask("glyphs()", Glyphmill::glyphs);
+    }
+
+    static Ask breaks() {
+        return new Ask("breaks()", Glyphmill::breaks);
+    }
+
+    static Ask breakAt(int rank) {
+        return new Ask("breakAt(" + rank + ")", m -> m.breakAt(rank));
+    }
+
+    static Ask tooWide() {
+        return new Ask("tooWide()", Glyphmill::tooWide);
+    }
+
+    static Ask excess() {
+        return new Ask("excess()", Glyphmill::excess);
+    }
+
+    static Ask lines() {
+        return new Ask("lines()", Glyphmill::lines);
+    }
+
+    static Ask linesByFirstFit() {
+        return new Ask("linesByFirstFit()", Glyphmill::linesByFirstFit);
+    }
+
+    static Ask firstOf(int line) {
+        return new Ask("firstOf(" + line + ")", m -> m.firstOf(line));
+    }
+
+    static Ask lineOf(int index) {
+        return new Ask("lineOf(" + index + ")", m -> m.lineOf(index));
+    }
+
+    static Ask widthOf(int line) {
+        return new Ask("widthOf(" + line + ")", m -> m.widthOf(line));
+    }
+
+    static Ask badnessOf(int line) {
+        return new Ask("badnessOf(" + line + ")", m -> m.badnessOf(line));
+    }
+
+    static Ask demerits() {
+        return new Ask("demerits()", Glyphmill::demerits);
+    }
+
+    static Ask demeritsByTrying() {
+        return new Ask("demeritsByTrying()", Glyphmill::demeritsByTrying);
+    }
+
+    static Ask linesByTrying() {
+        return new Ask("linesByTrying()", Glyphmill::linesByTrying);
+    }
+
+    static Ask glyphsOf(int line) {
+        return new Ask("glyphsOf(" + line + ")", m -> m.glyphsOf(line));
+    }
+
+    static Ask glyphAt(int line, int rank) {
+        return new Ask("glyphAt(" + line + ", " + rank + ")", m -> m.glyphAt(line, rank));
+    }
+
+    static Ask rankOf(int index) {
+        return new Ask("rankOf(" + index + ")", m -> m.rankOf(index));
+    }
+
+    static Ask rankByCounting(int index) {
+        return new Ask("rankByCounting(" + index + ")", m -> m.rankByCounting(index));
+    }
+
+    static Ask placeOf(int index) {
+        return new Ask("placeOf(" + index + ")", m -> m.placeOf(index));
+    }
+
+    static Ask justifiedWidth(int index) {
+        return new Ask("justifiedWidth(" + index + ")", m -> m.justifiedWidth(index));
+    }
+
+    static Ask hyphenShare() {
+        return new Ask("hyphenShare()", Glyphmill::hyphenShare);
+    }
+
+    static Ask meanBadness() {
+        return new Ask("meanBadness()", Glyphmill::meanBadness);
     }
 }

@@ -1,52 +1,17 @@
-import java.util.HashMap;
 import java.util.Map;
 
 /**
  * Every question is asked as the first one behind each kind of change, of an object that was asked before and of one
  * that was not: no answer may depend on what was asked before.
  */
-public final class FirstQuestionTest {
-    private interface Ask {
-        Object ask(Glyphmill mill);
-    }
+public final class FirstQuestionTest extends Check {
+    private static final String TEXT = "[a b-}fiAB 12 fin- Cde";
 
-    private record Question(String name, Ask ask) {
-    }
-
-    private static final Question[] QUESTIONS = {
-        new Question("length", Glyphmill::length),
-        new Question("open", Glyphmill::open),
-        new Question("runs", Glyphmill::runs),
-        new Question("glyphs", Glyphmill::glyphs),
-        new Question("breaks", Glyphmill::breaks),
-        new Question("tooWide", Glyphmill::tooWide),
-        new Question("excess", Glyphmill::excess),
-        new Question("lines", Glyphmill::lines),
-        new Question("linesByFirstFit", Glyphmill::linesByFirstFit),
-        new Question("demerits", Glyphmill::demerits),
-        new Question("demeritsByTrying", Glyphmill::demeritsByTrying),
-        new Question("linesByTrying", Glyphmill::linesByTrying),
-        new Question("hyphenShare", Glyphmill::hyphenShare),
-        new Question("meanBadness", Glyphmill::meanBadness),
-        new Question("charAt 7", mill -> mill.charAt(7)),
-        new Question("embeddingOf 7", mill -> mill.embeddingOf(7)),
-        new Question("levelOf 7", mill -> mill.levelOf(7)),
-        new Question("scriptOf 7", mill -> mill.scriptOf(7)),
-        new Question("runOf 7", mill -> mill.runOf(7)),
-        new Question("glyphOf 7", mill -> mill.glyphOf(7)),
-        new Question("glyphStart 7", mill -> mill.glyphStart(7)),
-        new Question("lineOf 7", mill -> mill.lineOf(7)),
-        new Question("rankOf 7", mill -> mill.rankOf(7)),
-        new Question("rankByCounting 7", mill -> mill.rankByCounting(7)),
-        new Question("placeOf 7", mill -> mill.placeOf(7)),
-        new Question("justifiedWidth 3", mill -> mill.justifiedWidth(3)),
-        new Question("justifiedWidth 7", mill -> mill.justifiedWidth(7)),
-        new Question("breakAt 1", mill -> mill.breakAt(1)),
-        new Question("firstOf 1", mill -> mill.firstOf(1)),
-        new Question("widthOf 1", mill -> mill.widthOf(1)),
-        new Question("badnessOf 0", mill -> mill.badnessOf(0)),
-        new Question("glyphsOf 1", mill -> mill.glyphsOf(1)),
-        new Question("glyphAt 1 0", mill -> mill.glyphAt(1, 0)),
+    private static final Ask[] QUESTIONS = {
+        length(), open(), runs(), glyphs(), breaks(), tooWide(), excess(), lines(), linesByFirstFit(), demerits(),
+        demeritsByTrying(), linesByTrying(), hyphenShare(), meanBadness(), charAt(7), embeddingOf(7), levelOf(7),
+        scriptOf(7), runOf(7), glyphOf(7), glyphStart(7), lineOf(7), rankOf(7), rankByCounting(7), placeOf(7),
+        justifiedWidth(3), justifiedWidth(7), breakAt(1), firstOf(1), widthOf(1), badnessOf(0), glyphsOf(1), glyphAt(1, 0),
     };
 
     private static final String[] CHANGES = {
@@ -54,29 +19,35 @@ public final class FirstQuestionTest {
     };
 
     public static void main(String[] args) {
+        Mill fresh = Mill.NEW.line(30).rule('f', 'i', 5).type(TEXT);
         for (String change : CHANGES) {
+            says("the first question behind " + change);
             Map<String, String> want = wanted(change);
-            for (Question question : QUESTIONS) {
-                String what = question.name + " first behind " + change;
-                Glyphmill fresh = prepared();
-                change(fresh, change);
-                Check.due(what, want.get(question.name), () -> question.ask.ask(fresh));
-                Glyphmill asked = prepared();
-                Check.everything(asked);
-                change(asked, change);
-                Check.due(what + ", asked before", want.get(question.name), () -> question.ask.ask(asked));
+            Mill asked = changed(fresh.then(QUESTIONS), change);
+            for (Ask question : QUESTIONS) {
+                due(changed(fresh, change), question, want.get(question.name()));
+                due(asked, question, want.get(question.name()));
             }
         }
-        for (Question question : QUESTIONS) {
-            String want = Check.answer(() -> question.ask.ask(new Glyphmill()));
-            Glyphmill mill = prepared();
-            Check.everything(mill);
-            for (int i = mill.length(); i > 0; i--) {
-                mill.removeLast();
-            }
-            Check.due(question.name + " of a text that is empty again", want, () -> question.ask.ask(mill));
+        says("the first question of a text that is empty again");
+        Mill again = Mill.of(TEXT).then(QUESTIONS[0], glyphs(), lines(), placeOf(7)).cut(TEXT.length());
+        for (Ask question : QUESTIONS) {
+            due(again, question, answer(Mill.NEW.make(), question));
         }
-        Check.end();
+        end();
+    }
+
+    private static Mill changed(Mill mill, String change) {
+        return switch (change) {
+            case "add" -> mill.type("{");
+            case "add a wide word" -> mill.type("abcdefgh");
+            case "removeLast" -> mill.cut(1);
+            case "setWidth" -> mill.width('A', 7);
+            case "setLine" -> mill.line(40);
+            case "setBase" -> mill.base(true);
+            case "addLigature" -> mill.rule('A', 'B', 4);
+            default -> mill;
+        };
     }
 
     /** The answers of the naive telling, by the questions. */
@@ -85,39 +56,6 @@ public final class FirstQuestionTest {
         naive.lineWidth = 30;
         naive.rules.add(new int[] {'f', 'i', 5});
         naive.text = TEXT;
-        change(naive, change);
-        Map<String, String> want = new HashMap<>();
-        for (String line : naive.everything().split("\n")) {
-            int sign = line.indexOf(" = ");
-            want.put(line.substring(0, sign), line.substring(sign + 3));
-        }
-        return want;
-    }
-
-    private static final String TEXT = "[a b-}fiAB 12 fin- Cde";
-
-    private static Glyphmill prepared() {
-        Glyphmill mill = new Glyphmill();
-        mill.setLine(30);
-        mill.addLigature('f', 'i', 5);
-        Check.type(mill, TEXT);
-        return mill;
-    }
-
-    private static void change(Glyphmill mill, String change) {
-        switch (change) {
-            case "add" -> mill.add('{');
-            case "add a wide word" -> Check.type(mill, "abcdefgh");
-            case "removeLast" -> mill.removeLast();
-            case "setWidth" -> mill.setWidth('A', 7);
-            case "setLine" -> mill.setLine(40);
-            case "setBase" -> mill.setBase(true);
-            case "addLigature" -> mill.addLigature('A', 'B', 4);
-            default -> { }
-        }
-    }
-
-    private static void change(Naive naive, String change) {
         switch (change) {
             case "add" -> naive.text += "{";
             case "add a wide word" -> naive.text += "abcdefgh";
@@ -128,5 +66,6 @@ public final class FirstQuestionTest {
             case "addLigature" -> naive.rules.add(new int[] {'A', 'B', 4});
             default -> { }
         }
+        return Naive.byQuestion(naive.everything());
     }
 }

@@ -1,328 +1,431 @@
-/** Promises 19 to 31: break places, parts that are too wide, lines and demerits. */
-public final class LinesTest {
+/** Promises 23 to 31, and what 'Demerits' says: a test for each sentence. */
+public final class LinesTest extends Check {
     public static void main(String[] args) {
-        breakPlaces();
-        partsTooWide();
-        exactWidths();
-        withoutLines();
-        notPossible();
-        linesOfWords();
-        shrunkLines();
-        stretchedLines();
-        droppedSpaces();
-        blankFirstLine();
-        hyphens();
+        badnessOfLastLine();
+        badnessOfExactLine();
+        badnessWithoutSpaces();
+        badnessOfStretchedLine();
+        badnessOfShrunkLine();
+        demeritsOfLines();
+        demeritsOfHyphens();
         leastDemerits();
         fewestLines();
-        firstLineThatEndsEarlier();
+        endsEarlier();
+        linesCounted();
         firstFit();
-        byTrying();
-        refusals();
-        Check.end();
+        firstCharacters();
+        lineNumbers();
+        widths();
+        badnessNumbers();
+        demeritsSummed();
+        tryingIsTheSame();
+        tryingMostBreaks();
+        refusedWithoutLines();
+        refusedWhereNotPossible();
+        refusedLines();
+        refusedIndices();
+        refusedTwice();
+        end();
     }
 
-    private static Glyphmill mill(int lineWidth, String text) {
-        Glyphmill mill = new Glyphmill();
-        mill.setLine(lineWidth);
-        Check.type(mill, text);
-        return mill;
-    }
-
-    private static void dueBreaks(String text, int... want) {
-        Glyphmill mill = Check.mill(text);
-        Check.due("breaks of " + text, want.length, mill::breaks);
-        for (int r = 0; r < want.length; r++) {
-            int rank = r;
-            Check.due("breakAt " + r + " of " + text, want[r], () -> mill.breakAt(rank));
-        }
-        for (int rank : new int[] {-1, want.length, want.length + 1, Integer.MIN_VALUE, Integer.MAX_VALUE}) {
-            Check.refuses(mill, "breakAt " + rank + " of " + text, Check.INDEX, () -> mill.breakAt(rank));
-        }
-    }
-
-    private static void breakPlaces() {
-        dueBreaks("");
-        dueBreaks("   ");
-        dueBreaks("[ }");
-        dueBreaks("a,b.c1");
-        dueBreaks("a b", 2);
-        dueBreaks("a ");
-        dueBreaks("a-");
-        dueBreaks(" a", 1);
-        dueBreaks("-a", 1);
-        dueBreaks("a   b", 4);
-        dueBreaks("a- b", 3);
-        dueBreaks("a -b", 2, 3);
-        dueBreaks("---", 1, 2);
-        dueBreaks("ab cd-ef  g--h -i", 3, 6, 10, 12, 13, 15, 16);
-        dueBreaks("a [b}-{}c", 3, 8);
-        dueBreaks("[ }{,", 4);
-        dueBreaks("A 1 .", 2, 4);
-    }
-
-    private static void dueTooWide(int lineWidth, String text, int first, int excess) {
-        Glyphmill mill = mill(lineWidth, text);
-        Check.due("tooWide of " + text, first, mill::tooWide);
-        Check.due("excess of " + text, excess, mill::excess);
-        if (first >= 0) {
-            Check.due("lines of " + text, Check.STATE, mill::lines);
+    /** The lines as they begin, their widths and their badness; the sum of demerits and the lines in both ways. */
+    private static void dueLines(Mill mill, long sum, String firsts, String widths, String badness) {
+        int count = firsts.split(" ").length;
+        due(mill, lines(), count);
+        due(mill, demerits(), sum);
+        dueRow(mill, Check::firstOf, firsts);
+        dueRow(mill, Check::widthOf, widths);
+        dueRow(mill, Check::badnessOf, badness);
+        if (mill.make().breaks() <= 9) {
+            due(mill, linesByTrying(), count);
+            due(mill, demeritsByTrying(), sum);
         }
     }
 
-    private static void partsTooWide() {
-        dueTooWide(10, "", -1, 0);
-        dueTooWide(10, "          ", -1, 0);
-        dueTooWide(10, "aa", -1, 0);
-        dueTooWide(10, "aaa", 0, 2);
-        dueTooWide(10, "aaa bb", 0, 2);
-        dueTooWide(10, "bb aaa", 3, 2);
-        dueTooWide(10, "bb [aaa", 4, 2);
-        dueTooWide(10, "[{aaa", 2, 2);
-        dueTooWide(10, "bb a.ab aaaaa", 3, 6);
-        dueTooWide(10, "aa-bb", 0, 2);
-        dueTooWide(10, "a-aa aaa-", 5, 6);
-        dueTooWide(10, "aa     ", -1, 0);
-        dueTooWide(10, "     aa", -1, 0);
-        dueTooWide(10, "a a a a a a", -1, 0);
+    /** Letters of the width 1 to 20 that are together as wide as this. */
+    private static Mill word(Mill mill, int width) {
+        Mill wider = mill.width('x', 20).type("x".repeat(width / 20));
+        return width % 20 == 0 ? wider : wider.width('y', width % 20).type("y");
     }
 
-    private static void exactWidths() {
-        dueTooWide(12, "aaa", -1, 0);
-        dueTooWide(11, "aaa", 0, 1);
-        Glyphmill mill = mill(12, "a fil");
-        mill.addLigature('f', 'i', 9);
-        Check.due("tooWide with a wide ligature", 2, mill::tooWide);
-        Check.due("excess with a wide ligature", 1, mill::excess);
-        mill.addLigature(200, 'l', 12);
-        Check.due("tooWide with a narrow ligature", -1, mill::tooWide);
-        Check.due("lines with a narrow ligature", 2, mill::lines);
-        mill.setLine(10);
-        Check.due("tooWide in a narrow line", 2, mill::tooWide);
-        Check.due("excess in a narrow line", 2, mill::excess);
+    /** A first line with these spaces and this difference, and a last one with a word that fills it. */
+    private static Mill firstLine(int letter, int spaces, int difference) {
+        int natural = letter * (spaces + 1) + spaces;
+        Mill mill = Mill.NEW.width('a', letter).width(' ', 1).line(natural + difference);
+        return word(mill.type("a" + " a".repeat(spaces) + " "), natural + difference);
     }
 
-    private static void withoutLines() {
-        for (String text : new String[] {"", "   ", "[{", "[ } "}) {
-            Glyphmill mill = Check.mill(text);
-            Check.due("lines of blank text", 0, mill::lines);
-            Check.due("linesByFirstFit of blank text", 0, mill::linesByFirstFit);
-            Check.due("demerits of blank text", 0, mill::demerits);
-            Check.due("demeritsByTrying of blank text", 0, mill::demeritsByTrying);
-            Check.due("linesByTrying of blank text", 0, mill::linesByTrying);
-            Check.refuses(mill, "firstOf of blank text", Check.INDEX, () -> mill.firstOf(0));
-            Check.refuses(mill, "widthOf of blank text", Check.INDEX, () -> mill.widthOf(0));
-            Check.refuses(mill, "badnessOf of blank text", Check.INDEX, () -> mill.badnessOf(0));
+    // ---- Demerits
+
+    private static void badnessOfLastLine() {
+        says("The badness of a line with the difference d and k spaces that are not dropped is as follows. For the last "
+                + "line with d of 0 or more, it is 0.");
+        dueLines(Mill.of("ab").line(10), 1, "0", "8", "0");
+        dueLines(Mill.of("a b").line(200), 1, "0", "12", "0");
+        dueLines(Mill.of("a b").line(13), 1, "0", "12", "0");
+        dueLines(Mill.of("a b").line(12), 1, "0", "12", "0");
+        dueLines(Mill.of("a b").line(11), 10201, "0", "12", "100");
+        dueLines(Mill.of("-"), 1, "0", "4", "0");
+        dueLines(Mill.of("aa bb").line(10), 100020002, "0 3", "8 8", "10000 0");
+    }
+
+    private static void badnessOfExactLine() {
+        says("Otherwise, if d is 0, it is 0");
+        dueLines(Mill.of("aaa bb").line(12), 2, "0 4", "12 8", "0 0");
+        dueLines(Mill.of("a a bb").line(12), 2, "0 4", "12 8", "0 0");
+        dueLines(Mill.of("aaa   [ }bb").line(12), 2, "0 9", "12 8", "0 0");
+        dueLines(Mill.of("aa bb cc").line(20), 2, "0 6", "20 8", "0 0");
+    }
+
+    private static void badnessWithoutSpaces() {
+        says("if k is 0, it is 10000");
+        dueLines(Mill.of("aaa bbb").line(13), 100020002, "0 4", "12 12", "10000 0");
+        dueLines(Mill.of("aaa bbb").line(26), 100020002, "0 4", "12 12", "10000 0");
+        dueLines(Mill.of("aaa   bbb").line(13), 100020002, "0 6", "12 12", "10000 0");
+        // a line of dropped spaces alone
+        dueLines(Mill.of("   aaa").line(20), 100020002, "0 3", "0 12", "10000 0");
+        dueLines(Mill.of("   aaa").line(21), 10201, "0", "24", "100");
+        dueLines(Mill.of("[ } aa bb").line(10), 200040003, "1 4 7", "0 8 8", "10000 10000 0");
+    }
+
+    private static void dueBadness(Mill mill, int want) {
+        due(mill, lines(), 2);
+        due(mill, badnessOf(0), want);
+        due(mill, badnessOf(1), 0);
+        due(mill, demerits(), (1L + want) * (1L + want) + 1L);
+    }
+
+    private static void badnessOfStretchedLine() {
+        says("if d is greater than 0, it is 100 times the cube of d, divided by the cube of 2 k and rounded down, but at "
+                + "most 10000");
+        dueBadness(firstLine(5, 1, 1), 12);
+        dueBadness(firstLine(5, 1, 2), 100);
+        dueBadness(firstLine(5, 1, 3), 337);
+        dueBadness(firstLine(5, 1, 9), 9112);
+        dueBadness(firstLine(5, 1, 10), 10000);
+        dueBadness(firstLine(5, 1, 189), 10000);
+        dueBadness(firstLine(5, 2, 1), 1);
+        dueBadness(firstLine(5, 2, 3), 42);
+        dueBadness(firstLine(5, 2, 4), 100);
+        dueBadness(firstLine(5, 2, 5), 195);
+        dueBadness(firstLine(5, 2, 18), 9112);
+        dueBadness(firstLine(5, 2, 19), 10000);
+        dueBadness(firstLine(5, 3, 1), 0);
+        dueBadness(firstLine(5, 3, 2), 3);
+        dueBadness(firstLine(5, 3, 27), 9112);
+        dueBadness(firstLine(5, 3, 28), 10000);
+        dueBadness(firstLine(1, 5, 46), 9733);
+        dueBadness(firstLine(1, 5, 47), 10000);
+        dueBadness(firstLine(1, 14, 1), 0);
+        dueBadness(firstLine(1, 14, 28), 100);
+        dueBadness(firstLine(1, 14, 129), 9779);
+        dueBadness(firstLine(1, 14, 130), 10000);
+    }
+
+    private static void badnessOfShrunkLine() {
+        says("if d is less than 0, it is 100 times the cube of -d, divided by the cube of k and rounded down.");
+        int[][] all = {{1, -1, 100}, {2, -1, 12}, {2, -2, 100}, {3, -1, 3}, {3, -2, 29}, {3, -3, 100}, {4, -1, 1},
+            {4, -3, 42}, {4, -4, 100}, {5, -1, 0}, {5, -2, 6}, {5, -4, 51}, {5, -5, 100}, {7, -6, 62}, {7, -7, 100}};
+        for (int[] one : all) {
+            // as the first of two lines, and as the last one
+            dueBadness(firstLine(8, one[0], one[1]), one[2]);
+            int natural = 2 * one[0] + 20;
+            Mill narrow = Mill.NEW.width('a', 1).width(' ', 1).width('z', 20).line(natural + one[1]);
+            dueLines(narrow.type("a ".repeat(one[0]) + "z"), (1L + one[2]) * (1L + one[2]), "0", "" + natural, "" + one[2]);
         }
-        Glyphmill wide = mill(10, " ".repeat(50));
-        wide.setWidth(' ', 20);
-        Check.due("lines of wide spaces", 0, wide::lines);
-        Check.due("tooWide of wide spaces", -1, wide::tooWide);
-        Check.refuses(wide, "lineOf of wide spaces", Check.NO_ELEMENT, () -> wide.lineOf(49));
-        Glyphmill mark = Check.mill("[");
-        Check.refuses(mark, "lineOf of a mark alone", Check.UNSUPPORTED, () -> mark.lineOf(0));
     }
 
-    private static void notPossible() {
-        Glyphmill mill = mill(10, "aa [aaa");
-        Check.refuses(mill, "lines", Check.STATE, mill::lines);
-        Check.refuses(mill, "linesByFirstFit", Check.STATE, mill::linesByFirstFit);
-        Check.refuses(mill, "demerits", Check.STATE, mill::demerits);
-        Check.refuses(mill, "demeritsByTrying", Check.STATE, mill::demeritsByTrying);
-        Check.refuses(mill, "linesByTrying", Check.STATE, mill::linesByTrying);
-        for (int line : new int[] {-1, 0, 7, Integer.MIN_VALUE, Integer.MAX_VALUE}) {
-            Check.refuses(mill, "firstOf " + line, Check.STATE, () -> mill.firstOf(line));
-            Check.refuses(mill, "widthOf " + line, Check.STATE, () -> mill.widthOf(line));
-            Check.refuses(mill, "badnessOf " + line, Check.STATE, () -> mill.badnessOf(line));
-        }
-        Check.refuses(mill, "lineOf 0", Check.STATE, () -> mill.lineOf(0));
-        Check.refuses(mill, "lineOf 3", Check.UNSUPPORTED, () -> mill.lineOf(3));
-        Check.refuses(mill, "lineOf 7", Check.INDEX, () -> mill.lineOf(7));
-        Check.refuses(mill, "lineOf -1", Check.INDEX, () -> mill.lineOf(-1));
-        mill.setLine(12);
-        Check.due("lines in a wider line", 2, mill::lines);
+    private static void demeritsOfLines() {
+        says("The demerits of a line are the square of 1 plus its badness");
+        due(Mill.of("a"), demerits(), 1);
+        due(Mill.of("aa bb").line(19), demerits(), 10201);
+        due(firstLine(5, 1, 9), demerits(), 9113L * 9113L + 1);
+        due(firstLine(5, 1, 10), demerits(), 100020002);
+        // more than an int holds
+        due(Mill.of("a ".repeat(25)).line(10).width('a', 9), demerits(), 24L * 100020001L + 1);
+        due(Mill.of("-".repeat(50)).line(10).width('-', 6), demerits(), 49L * 100020001L + 49 * 2500 + 48 * 3000 + 1);
     }
 
-    /** The lines as they begin, their widths and their badness; the sum of demerits in both ways. */
-    private static void dueLines(Glyphmill mill, String what, long demerits, String firsts, String widths,
-            String badness) {
-        int lines = firsts.split(" ").length;
-        Check.due(what + ": lines", lines, mill::lines);
-        Check.due(what + ": demerits", demerits, mill::demerits);
-        if (mill.breaks() <= 9) {
-            Check.due(what + ": linesByTrying", lines, mill::linesByTrying);
-            Check.due(what + ": demeritsByTrying", demerits, mill::demeritsByTrying);
-        }
-        Check.due(what + ": firstOf", firsts, () -> eachLine(lines, mill::firstOf));
-        Check.due(what + ": widthOf", widths, () -> eachLine(lines, mill::widthOf));
-        Check.due(what + ": badnessOf", badness, () -> eachLine(lines, mill::badnessOf));
-        for (int line : new int[] {-1, lines, Integer.MIN_VALUE, Integer.MAX_VALUE}) {
-            Check.due(what + ": firstOf " + line, Check.INDEX, () -> mill.firstOf(line));
-            Check.due(what + ": widthOf " + line, Check.INDEX, () -> mill.widthOf(line));
-            Check.due(what + ": badnessOf " + line, Check.INDEX, () -> mill.badnessOf(line));
-        }
-    }
-
-    private static String eachLine(int lines, Check.OfIndex question) {
-        StringBuilder all = new StringBuilder();
-        for (int line = 0; line < lines; line++) {
-            all.append(line > 0 ? " " : "").append(question.of(line));
-        }
-        return all.toString();
-    }
-
-    private static void linesOfWords() {
-        dueLines(mill(60, "ab"), "one word", 1, "0", "8", "0");
-        Glyphmill mill = mill(10, "aa {bb}");
-        dueLines(mill, "two words", 100020002, "0 4", "8 8", "10000 0");
-        Check.due("lineOf", "0 0 0 m 1 1 m", () -> Check.each(mill, mill::lineOf));
-        mill.setLine(20);
-        dueLines(mill, "two words in a line", 1, "0", "20", "0");
-        Check.due("lineOf in a line", "0 0 0 m 0 0 m", () -> Check.each(mill, mill::lineOf));
-    }
-
-    private static void shrunkLines() {
-        dueLines(mill(19, "aa bb"), "shrunk by 1 of 1", 10201, "0", "20", "100");
-        dueLines(mill(18, "aa bb"), "too wide by 1", 100020002, "0 3", "8 8", "10000 0");
-        dueLines(mill(19, "a b c"), "shrunk by 1 of 2", 169, "0", "20", "12");
-        dueLines(mill(18, "a b c"), "shrunk by 2 of 2", 10201, "0", "20", "100");
-        dueLines(mill(26, "a b c d"), "shrunk by 2 of 3", 900, "0", "28", "29");
-        dueLines(mill(25, "a b c d eeee"), "a shrunk line that is not the last", 10202, "0 8", "28 16", "100 0");
-        Glyphmill leading = mill(11, " aa");
-        dueLines(leading, "a leading space that is shrunk", 10201, "0", "12", "100");
-        Glyphmill two = mill(18, "aa  bb");
-        two.setWidth(' ', 2);
-        dueLines(two, "two spaces side by side", 10201, "0", "20", "100");
-    }
-
-    private static void stretchedLines() {
-        dueLines(mill(20, "a a aaaa"), "stretched by 8 of 1", 40972802, "0 4", "12 16", "6400 0");
-        dueLines(mill(27, "a b c ddddd"), "stretched by 7 of 2", 287297, "0 6", "20 20", "535 0");
-        dueLines(mill(60, "a b " + "c".repeat(15)), "stretched beyond the most", 100020002, "0 4", "12 60", "10000 0");
-        dueLines(mill(60, "a b"), "the last line is not stretched", 1, "0", "12", "0");
-    }
-
-    private static void droppedSpaces() {
-        Glyphmill mill = mill(12, "aaa   bb[  ");
-        dueLines(mill, "dropped spaces", 2, "0 6", "12 8", "0 0");
-        Check.due("lineOf of dropped spaces", "0 0 0 0 0 0 1 1 m 1 1", () -> Check.each(mill, mill::lineOf));
-        mill.setWidth(' ', 20);
-        dueLines(mill, "wide dropped spaces", 2, "0 6", "12 8", "0 0");
-    }
-
-    private static void blankFirstLine() {
-        Glyphmill mill = mill(10, "[ } aa bb");
-        dueLines(mill, "a first line of spaces", 200040003, "1 4 7", "0 8 8", "10000 10000 0");
-        Check.due("lineOf with a first line of spaces", "m 0 m 0 1 1 1 2 2", () -> Check.each(mill, mill::lineOf));
-        Check.due("linesByFirstFit with a first line of spaces", 3, mill::linesByFirstFit);
-        dueLines(mill(12, "  a bb"), "leading spaces that fit", 2, "0 4", "12 8", "0 0");
-    }
-
-    private static Glyphmill hyphened(String text) {
-        Glyphmill mill = mill(10, text);
-        mill.setWidth('-', 2);
-        return mill;
-    }
-
-    private static void hyphens() {
-        dueLines(hyphened("aa-bb"), "a hyphen", 2502, "0 3", "10 8", "0 0");
-        dueLines(hyphened("aa-bb-cc"), "two hyphens", 8003, "0 3 6", "10 10 8", "0 0 0");
-        dueLines(hyphened("aa-bb-cc-"), "a hyphen at the end", 8003, "0 3 6", "10 10 10", "0 0 0");
-        dueLines(hyphened("aa-bb-cc-dd"), "three hyphens", 13504, "0 3 6 9", "10 10 10 8", "0 0 0 0");
-        dueLines(hyphened("aa- bb"), "a space behind the hyphen", 2, "0 4", "10 8", "0 0");
-        dueLines(hyphened("aa-[}bb"), "marks behind the hyphen", 2502, "0 5", "10 8", "0 0");
-        Glyphmill mill = mill(10, "aa-bc aa-bb");
-        mill.setWidth('-', 2);
-        mill.setWidth('c', 6);
-        dueLines(mill, "hyphens that do not follow", 5004, "0 3 6 9", "10 10 10 8", "0 0 0 0");
+    private static void demeritsOfHyphens() {
+        says("2500 is added if the line is not the last one and its last character that is not a mark is '-', and 3000 "
+                + "more if the line before it ends so, too.");
+        Mill mill = Mill.NEW.line(10).width('-', 2);
+        dueLines(mill.type("aa-bb"), 2502, "0 3", "10 8", "0 0");
+        dueLines(mill.type("aa-"), 1, "0", "10", "0");
+        dueLines(mill.type("aa-bb-"), 2502, "0 3", "10 10", "0 0");
+        dueLines(mill.type("aa-bb-cc"), 8003, "0 3 6", "10 10 8", "0 0 0");
+        dueLines(mill.type("aa-bb-cc-"), 8003, "0 3 6", "10 10 10", "0 0 0");
+        dueLines(mill.type("aa-bb-cc-dd"), 13504, "0 3 6 9", "10 10 10 8", "0 0 0 0");
+        // marks behind it, and spaces behind it
+        dueLines(mill.type("aa-[{}}bb"), 2502, "0 7", "10 8", "0 0");
+        dueLines(mill.type("aa- bb"), 2, "0 4", "10 8", "0 0");
+        dueLines(mill.type("aa- [}bb"), 2, "0 6", "10 8", "0 0");
+        dueLines(mill.type("aa-[ }bb"), 2, "0 6", "10 8", "0 0");
+        // only one of two lines that follow each other ends so
+        Mill wide = mill.width('c', 6);
+        dueLines(wide.type("aa-bc aa-bb"), 5004, "0 3 6 9", "10 10 10 8", "0 0 0 0");
+        dueLines(wide.type("bc aa-bb"), 2503, "0 3 6", "10 10 8", "0 0 0");
+        dueLines(wide.type("aa- aa-bb"), 2503, "0 4 7", "10 10 8", "0 0 0");
+        dueLines(wide.type("aa-[}aa-bb"), 8003, "0 5 8", "10 10 8", "0 0 0");
+        dueLines(wide.type("aa-aa- bb"), 2503, "0 3 7", "10 10 8", "0 0 0");
+        // a line of spaces alone does not end so, and it stands before the one that does
+        dueLines(mill.width(' ', 6).type(" aa-bb"), 100020001L + 2501 + 1, "0 1 4", "0 10 8", "10000 0 0");
+        // a hyphen inside a line adds nothing
+        dueLines(Mill.of("a-b-c"), 1, "0", "20", "0");
     }
 
     private static void leastDemerits() {
+        says("The lines of a text are those possible lines with the least sum of demerits");
         // a first line "a a a" would fit exactly, but leave "b" alone on a line with a badness of 10000
-        Glyphmill mill = mill(20, "a a a b ccccc");
-        dueLines(mill, "a first line that leaves room", 81945603, "0 4 8", "12 12 20", "6400 6400 0");
-        Check.due("first fit of the same", 3, mill::linesByFirstFit);
+        dueLines(Mill.of("a a a b ccccc").line(20), 81945603, "0 4 8", "12 12 20", "6400 6400 0");
+        due(Mill.of("a a a b ccccc").line(20), linesByFirstFit(), 3);
+        // two lines with 58 * 58 + 1 in place of one with 101 * 101
+        dueLines(Mill.of("a a a a a").line(40).width('a', 8).width(' ', 1), 3365, "0 8", "35 8", "57 0");
+        // shrunk into a line, where the next place would leave it alone
+        dueLines(Mill.of("aa bb").line(19), 10201, "0", "20", "100");
+        dueLines(Mill.of("aa bb ccccc").line(20), 2, "0 6", "20 20", "0 0");
+        // 100 for the last line shrunk by 1 of 1 in place of 10000 for a line without spaces
+        dueLines(Mill.of("aaaa bb cc").line(19), 100030202L, "0 5", "16 20", "10000 100");
     }
 
     private static void fewestLines() {
-        Glyphmill mill = mill(15, "b a b a b c a c c a b");
-        mill.setWidth('a', 1);
-        mill.setWidth('b', 2);
-        mill.setWidth(' ', 1);
+        says("of several, those with the fewest lines");
         // 49 + 4 with two lines, 36 + 16 + 1 with three
-        dueLines(mill, "the same sum with fewer lines", 53, "0 12", "17 16", "6 1");
-        Check.due("trying with 10 break places", Check.UNSUPPORTED, mill::linesByTrying);
+        Mill mill = Mill.of("b a b a b c a c c a b").line(15).width('a', 1).width('b', 2).width(' ', 1);
+        dueLines(mill, 53, "0 12", "17 16", "6 1");
+        due(mill, linesByTrying(), UNSUPPORTED);
     }
 
-    private static void firstLineThatEndsEarlier() {
-        Glyphmill mill = mill(10, "a a a aaa");
-        mill.setWidth('a', 3);
-        dueLines(mill, "the same sum with as many lines", 100020003, "0 2 6", "3 10 9", "10000 0 0");
-        Glyphmill more = mill(10, "a a a a a aaa");
-        more.setWidth('a', 3);
-        dueLines(more, "the same sum in three ways", 100020004, "0 2 6 10", "3 10 10 9", "10000 0 0 0");
-        Glyphmill shrunk = mill(10, "b c a b c d");
-        shrunk.setWidth(' ', 1);
-        shrunk.setWidth('a', 1);
-        shrunk.setWidth('c', 5);
-        shrunk.setWidth('d', 10);
-        dueLines(shrunk, "the same sum with the other line shrunk", 10203, "0 4 10", "10 12 10", "0 100 0");
-        Glyphmill longer = mill(10, "aaa a a a aaa a a a aaa");
-        longer.setWidth('a', 3);
-        dueLines(longer, "the same sums twice", 400080007, "0 4 6 10 14 16 20", "9 3 10 9 3 10 9",
-                "10000 10000 0 10000 10000 0 0");
+    private static void endsEarlier() {
+        says("of several, those where the first line that differs ends earlier.");
+        dueLines(Mill.of("a a a aaa").line(10).width('a', 3), 100020003, "0 2 6", "3 10 9", "10000 0 0");
+        // in three ways
+        dueLines(Mill.of("a a a a a aaa").line(10).width('a', 3), 100020004, "0 2 6 10", "3 10 10 9", "10000 0 0 0");
+        dueLines(Mill.of("b c a b c d").line(10).width(' ', 1).width('a', 1).width('c', 5).width('d', 10), 10203,
+                "0 4 10", "10 12 10", "0 100 0");
+        // two such places one behind the other
+        dueLines(Mill.of("aaa a a a aaa a a a aaa").line(10).width('a', 3), 400080007, "0 4 6 10 14 16 20",
+                "9 3 10 9 3 10 9", "10000 10000 0 10000 10000 0 0");
+    }
+
+    // ---- promises 23 to 31
+
+    private static void linesCounted() {
+        says("lines returns the number of lines.");
+        due(Mill.NEW, lines(), 0);
+        due(Mill.of("  [ "), lines(), 0);
+        due(Mill.of("a"), lines(), 1);
+        due(Mill.of("aa bb").line(10), lines(), 2);
+        Mill most = Mill.of("-".repeat(50)).line(10).width('-', 10);
+        due(most, lines(), 50);
+        due(most, firstOf(49), 49);
+        due(most, firstOf(50), INDEX);
+        due(most, lineOf(49), 49);
+        due(most, widthOf(49), 10);
+        due(most, badnessOf(49), 0);
+        due(most, demerits(), 49 * 2501 + 48 * 3000 + 1);
+        due(most.width('-', 1), lines(), 5);
+        due(most.width('-', 1), demerits(), 4 * 2501 + 3 * 3000 + 1);
+        due(most.width('-', 11), lines(), STATE);
+        due(most.cut(49), lines(), 1);
+        due(most.cut(50), lines(), 0);
     }
 
     private static void firstFit() {
-        Check.due("first fit does not shrink", 2, () -> mill(19, "aa bb").linesByFirstFit());
-        Check.due("first fit fills exactly", 1, () -> mill(20, "aa bb").linesByFirstFit());
-        Check.due("first fit of the same", 1, () -> mill(19, "aa bb").lines());
-        Check.due("first fit drops spaces", 2, () -> mill(20, "aa bb     cc").linesByFirstFit());
-        Check.due("first fit of words", 3, () -> mill(20, "a a a a a a a").linesByFirstFit());
-        Check.due("first fit of hyphens", 3, () -> mill(10, "a-b-c-").linesByFirstFit());
-        Check.due("first fit of one line", 1, () -> mill(200, "a b c d e f g h i j k l").linesByFirstFit());
-        Check.due("first fit of leading spaces", 1, () -> mill(12, "  a").linesByFirstFit());
-        Check.due("first fit of more leading spaces", 2, () -> mill(12, "   a").linesByFirstFit());
+        says("linesByFirstFit returns the number of lines if each line, from the first one on, took as many of these parts "
+                + "as it can without a natural width greater than the line width.");
+        due(Mill.of("aa bb").line(20), linesByFirstFit(), 1);
+        due(Mill.of("aa bb").line(19), linesByFirstFit(), 2);
+        due(Mill.of("aa bb").line(19), lines(), 1);
+        // without the dropped spaces
+        due(Mill.of("aa bb     cc").line(20), linesByFirstFit(), 2);
+        due(Mill.of("aa bb   ").line(20), linesByFirstFit(), 1);
+        due(Mill.of("a a a a a a a").line(20), linesByFirstFit(), 3);
+        due(Mill.of("a a a a a a").line(20), linesByFirstFit(), 2);
+        due(Mill.of("a-b-c-").line(10), linesByFirstFit(), 3);
+        due(Mill.of("a-b-c-").line(16), linesByFirstFit(), 2);
+        due(Mill.of("a b c d e f g h i j k l").line(200), linesByFirstFit(), 1);
+        // spaces ahead of the first word are a part, too
+        due(Mill.of("  a").line(12), linesByFirstFit(), 1);
+        due(Mill.of("  a").line(11), linesByFirstFit(), 2);
+        due(Mill.of("  a b").line(11), linesByFirstFit(), 3);
+        due(Mill.of("  a b").line(12), linesByFirstFit(), 2);
+        // one, none, and the most
+        due(Mill.of("a"), linesByFirstFit(), 1);
+        due(Mill.of("a "), linesByFirstFit(), 1);
+        due(Mill.NEW, linesByFirstFit(), 0);
+        due(Mill.of("  "), linesByFirstFit(), 0);
+        due(Mill.of("-".repeat(50)).line(10).width('-', 10), linesByFirstFit(), 50);
+        due(Mill.of("-".repeat(50)).line(10).width('-', 5), linesByFirstFit(), 25);
+        due(Mill.of("-".repeat(50)).line(10).width('-', 6), linesByFirstFit(), 50);
+        due(Mill.of("-".repeat(50)).line(50).width('-', 1), linesByFirstFit(), 1);
+        due(Mill.of("-".repeat(50)).line(49).width('-', 1), linesByFirstFit(), 2);
+        // it does not leave room for the demerits' sake
+        due(Mill.of("a a a aaa").line(10).width('a', 3), linesByFirstFit(), 3);
     }
 
-    private static void byTrying() {
-        Glyphmill mill = mill(20, "a a a a a a a a a a");
-        Check.due("9 break places", 9, mill::breaks);
-        Check.due("demeritsByTrying of 9", mill.demerits(), mill::demeritsByTrying);
-        Check.due("linesByTrying of 9", mill.lines(), mill::linesByTrying);
-        Check.type(mill, " a");
-        Check.due("10 break places", 10, mill::breaks);
-        Check.refuses(mill, "demeritsByTrying of 10", Check.UNSUPPORTED, mill::demeritsByTrying);
-        Check.refuses(mill, "linesByTrying of 10", Check.UNSUPPORTED, mill::linesByTrying);
-        Check.type(mill, "aaaaa");
-        Check.refuses(mill, "demeritsByTrying of 10 that are not possible", Check.STATE, mill::demeritsByTrying);
-        Check.refuses(mill, "linesByTrying of 10 that are not possible", Check.STATE, mill::linesByTrying);
-        Glyphmill most = mill(10, "-".repeat(50));
-        most.setWidth('-', 1);
-        Check.due("49 break places", 49, most::breaks);
-        // ten in each line; each line but the last adds a hyphen's demerits, and each but the first 3000 more
-        Check.due("demerits of 50 hyphens", 4 * 2501 + 3 * 3000 + 1, most::demerits);
-        Check.due("lines of 50 hyphens", 5, most::lines);
-        most.setWidth('-', 10);
-        Check.due("50 lines", 50, most::lines);
-        Check.due("first fit of 50 lines", 50, most::linesByFirstFit);
-        Check.due("demerits of 50 lines", 49 * 2501 + 48 * 3000 + 1, most::demerits);
-        Check.due("firstOf the last of 50 lines", 49, () -> most.firstOf(49));
-        Check.due("firstOf behind 50 lines", Check.INDEX, () -> most.firstOf(50));
-        Check.due("lineOf in 50 lines", 31, () -> most.lineOf(31));
-        most.setWidth('-', 11);
-        Check.due("50 parts that are too wide", 0, most::tooWide);
+    private static void firstCharacters() {
+        says("firstOf returns the index of its first character that is not a mark.");
+        dueRow(Mill.of("a"), Check::firstOf, "0");
+        dueRow(Mill.of("[{a"), Check::firstOf, "2");
+        dueRow(Mill.of("[{}} a").line(10), Check::firstOf, "4");
+        dueRow(Mill.of("{aa [{bb}} cc").line(10), Check::firstOf, "1 6 11");
+        dueRow(Mill.of("aa[ }{bb").line(10), Check::firstOf, "0 6");
+        dueRow(Mill.of("{fi fi").line(10).rule('f', 'i', 10), Check::firstOf, "1 4");
     }
 
-    private static void refusals() {
-        Glyphmill mill = mill(10, "aa {bb}");
-        for (int index : new int[] {-1, 7, Integer.MIN_VALUE, Integer.MAX_VALUE}) {
-            Check.refuses(mill, "lineOf " + index, Check.INDEX, () -> mill.lineOf(index));
+    private static void lineNumbers() {
+        says("lineOf returns the line of a character, which can be a dropped space.");
+        dueEach(Mill.of("aa   [bb}  "), Check::lineOf, "0 0 0 0 0 m 0 0 m 0 0");
+        dueEach(Mill.of("aa   [bb}  ").line(10), Check::lineOf, "0 0 0 0 0 m 1 1 m 1 1");
+        dueEach(Mill.of(" aa").line(10), Check::lineOf, "0 1 1");
+        dueEach(Mill.of("ab-cd").line(12), Check::lineOf, "0 0 0 1 1");
+        dueEach(Mill.of("fi fi").line(10).rule('f', 'i', 10), Check::lineOf, "0 0 0 1 1");
+    }
+
+    private static void widths() {
+        says("widthOf returns the natural width of a line.");
+        dueRow(Mill.of("a b  "), Check::widthOf, "12");
+        dueRow(Mill.of(" aa-b").line(12), Check::widthOf, "0 12 4");
+        dueRow(Mill.of("a".repeat(50)).line(200), Check::widthOf, "200");
+        dueRow(Mill.of("a b c").line(18), Check::widthOf, "20");
+    }
+
+    private static void badnessNumbers() {
+        says("badnessOf returns the badness of a line.");
+        dueRow(Mill.of("a a aaaa").line(20), Check::badnessOf, "6400 0");
+        dueRow(Mill.of("a b c ddddd").line(27), Check::badnessOf, "535 0");
+        dueRow(Mill.of("a b c d eeee").line(25), Check::badnessOf, "100 0");
+        dueRow(Mill.of("a b c d").line(26), Check::badnessOf, "29");
+        // that of a line is without what hyphens add
+        dueRow(Mill.of("aa-bb").line(12), Check::badnessOf, "0 0");
+    }
+
+    private static void demeritsSummed() {
+        says("demerits returns the sum, or 0 if there are no lines.");
+        due(Mill.NEW, demerits(), 0);
+        due(Mill.of(" [ "), demerits(), 0);
+        due(Mill.of("a"), demerits(), 1);
+        due(Mill.of("a").cut(1), demerits(), 0);
+        due(Mill.of("aaa bbb ccc").line(12), demerits(), 3);
+        due(Mill.of("aa bb cc").line(10), demerits(), 200040003);
+    }
+
+    private static void tryingIsTheSame() {
+        says("Returns the same as demerits, found by trying all sets of break places. Returns the sum, or 0 if there are no "
+                + "lines. Returns the same as lines, found by trying all sets of break places.");
+        for (String text : new String[] {"", " ", "[", "  "}) {
+            due(Mill.of(text), demeritsByTrying(), 0);
+            due(Mill.of(text), linesByTrying(), 0);
         }
-        Check.refuses(mill, "lineOf 3", Check.UNSUPPORTED, () -> mill.lineOf(3));
-        for (int line : new int[] {-1, 2, Integer.MIN_VALUE, Integer.MAX_VALUE}) {
-            Check.refuses(mill, "firstOf " + line, Check.INDEX, () -> mill.firstOf(line));
-            Check.refuses(mill, "widthOf " + line, Check.INDEX, () -> mill.widthOf(line));
-            Check.refuses(mill, "badnessOf " + line, Check.INDEX, () -> mill.badnessOf(line));
+        due(Mill.of("a"), demeritsByTrying(), 1);
+        due(Mill.of("a"), linesByTrying(), 1);
+        due(Mill.of("aa bb").line(19), demeritsByTrying(), 10201);
+        due(Mill.of("aa bb").line(19), linesByTrying(), 1);
+        due(Mill.of("aa bb").line(18), demeritsByTrying(), 100020002);
+        due(Mill.of("aa bb").line(18), linesByTrying(), 2);
+        due(Mill.of("a-b-c-").line(10).width('-', 6), demeritsByTrying(), 2501 + 5501 + 1);
+        due(Mill.of("a-b-c-").line(10).width('-', 6), linesByTrying(), 3);
+        due(Mill.of("  aa").line(10), demeritsByTrying(), 100020002);
+        due(Mill.of("  aa").line(10), linesByTrying(), 2);
+    }
+
+    private static void tryingMostBreaks() {
+        says("demeritsByTrying and linesByTrying throw `UnsupportedOperationException` if there are more than 9 break "
+                + "places");
+        Mill nine = Mill.of("-".repeat(10)).line(10).width('-', 10);
+        due(nine, breaks(), 9);
+        due(nine, demeritsByTrying(), 9 * 2501 + 8 * 3000 + 1);
+        due(nine, linesByTrying(), 10);
+        due(nine.line(100), linesByTrying(), 1);
+        due(Mill.of("a a a a a a a a a a").line(200), demeritsByTrying(), 1);
+        due(Mill.of(" a a a a a a a a a ").line(200), linesByTrying(), 1);
+        refused(nine.type("a"), demeritsByTrying(), UNSUPPORTED);
+        refused(nine.type("a"), linesByTrying(), UNSUPPORTED);
+        due(nine.type("a").cut(1), linesByTrying(), 10);
+        for (String text : new String[] {"a a a a a a a a a a a", " a a a a a a a a a a", "-".repeat(50)}) {
+            refused(Mill.of(text).line(200), demeritsByTrying(), UNSUPPORTED);
+            refused(Mill.of(text).line(200), linesByTrying(), UNSUPPORTED);
         }
+    }
+
+    private static void refusedWithoutLines() {
+        says("If a text has no characters other than spaces and marks, it has no lines: there is no such line, and no line "
+                + "of a character.");
+        for (String text : new String[] {"", "   ", "[", "[ } "}) {
+            Mill mill = Mill.of(text);
+            for (int line : new int[] {0, 1, -1, LEAST, MOST}) {
+                refused(mill, firstOf(line), INDEX);
+                refused(mill, widthOf(line), INDEX);
+                refused(mill, badnessOf(line), INDEX);
+            }
+        }
+        refused(Mill.of("  "), lineOf(0), NO_ELEMENT);
+        refused(Mill.of("[ } "), lineOf(3), NO_ELEMENT);
+        refused(Mill.of(" ".repeat(50)).line(10).width(' ', 20), lineOf(49), NO_ELEMENT);
+    }
+
+    private static void refusedWhereNotPossible() {
+        says("They throw `IllegalStateException` if lines are not possible");
+        for (Mill mill : new Mill[] {Mill.of("aaa").line(11), Mill.of("aa [aaa").line(11), Mill.of("aaa aa").line(11)}) {
+            for (Ask ask : new Ask[] {lines(), linesByFirstFit(), firstOf(0), widthOf(0), badnessOf(0), demerits(),
+                demeritsByTrying(), linesByTrying(), lineOf(0)}) {
+                refused(mill, ask, STATE);
+            }
+            due(mill.line(12), lines(), mill.make().length() == 3 ? 1 : 2);
+        }
+    }
+
+    private static void refusedLines() {
+        says("firstOf, widthOf and badnessOf throw `IndexOutOfBoundsException` if there is no such line");
+        Mill mill = Mill.of("aa {bb}").line(10);
+        for (int line : new int[] {-1, 2, 3, 49, LEAST, MOST}) {
+            refused(mill, firstOf(line), INDEX);
+            refused(mill, widthOf(line), INDEX);
+            refused(mill, badnessOf(line), INDEX);
+        }
+        due(mill, firstOf(0), 0);
+        due(mill, firstOf(1), 4);
+        refused(Mill.of("a"), firstOf(1), INDEX);
+        refused(mill.cut(3), firstOf(1), INDEX);
+        refused(Mill.of("-".repeat(50)).line(10).width('-', 10), widthOf(50), INDEX);
+    }
+
+    private static void refusedIndices() {
+        says("lineOf throws `IndexOutOfBoundsException` if there is no such index, `UnsupportedOperationException` if it is "
+                + "a mark");
+        for (int index : new int[] {-1, 7, 8, 50, LEAST, MOST}) {
+            refused(Mill.of("aa {bb}").line(10), lineOf(index), INDEX);
+            refused(Mill.NEW, lineOf(index), INDEX);
+        }
+        refused(Mill.NEW, lineOf(0), INDEX);
+        refused(Mill.of("aa {bb}").line(10), lineOf(3), UNSUPPORTED);
+        refused(Mill.of("aa {bb}").line(10), lineOf(6), UNSUPPORTED);
+    }
+
+    private static void refusedTwice() {
+        says("If several exceptions apply, the one that is listed first is thrown (lines).");
+        Mill mill = Mill.of("aa [aaa ").line(11);
+        for (int line : new int[] {-1, 0, 1, 2, 8, 50, LEAST, MOST}) {
+            refused(mill, firstOf(line), STATE);
+            refused(mill, widthOf(line), STATE);
+            refused(mill, badnessOf(line), STATE);
+        }
+        // no such index, and a mark, where lines are not possible
+        for (int index : new int[] {-1, 8, 50, LEAST, MOST}) {
+            refused(mill, lineOf(index), INDEX);
+        }
+        refused(mill, lineOf(3), UNSUPPORTED);
+        refused(mill, lineOf(2), STATE);
+        refused(mill, lineOf(7), STATE);
+        // no such index, and a mark, where there are no lines
+        refused(Mill.of(" [ "), lineOf(3), INDEX);
+        refused(Mill.of(" [ "), lineOf(-1), INDEX);
+        refused(Mill.of(" [ "), lineOf(1), UNSUPPORTED);
+        refused(Mill.of(" [ "), lineOf(2), NO_ELEMENT);
+        // more than 9 break places, where lines are not possible
+        refused(Mill.of("a a a a a a a a a a aaa").line(11), demeritsByTrying(), STATE);
+        refused(Mill.of("a a a a a a a a a a aaa").line(11), linesByTrying(), STATE);
+        refused(Mill.of("a a a a a a a a a a aa").line(11), linesByTrying(), UNSUPPORTED);
     }
 }

@@ -3,6 +3,7 @@ import java.util.ArrayList;
 import java.util.HashMap;
 import java.util.List;
 import java.util.Map;
+import java.util.NoSuchElementException;
 
 /**
  * The document told once more, as plainly and as slowly as its words go: every answer is found anew from the
@@ -494,7 +495,7 @@ final class Naive {
                 return l;
             }
         }
-        throw Check.none();
+        throw new NoSuchElementException();
     }
 
     // ---- visual order and justification
@@ -553,7 +554,7 @@ final class Naive {
         List<Integer> g = glyphAround(i);
         int rank = visual(lines.get(lineOf(i))).indexOf(g);
         if (rank < 0) {
-            throw Check.none();
+            throw new NoSuchElementException();
         }
         return rank;
     }
@@ -563,32 +564,32 @@ final class Naive {
     String everything() {
         breakIntoLines();
         StringBuilder all = new StringBuilder();
-        Check.tell(all, "length", () -> text.length());
-        Check.tell(all, "open", this::open);
-        Check.tell(all, "runs", () -> {
+        tell(all, "length()", () -> text.length());
+        tell(all, "open()", this::open);
+        tell(all, "runs()", () -> {
             int n = 0;
             for (int i = 0; i < text.length(); i++) {
                 n += !mark(at(i)) && beginsRun(i) ? 1 : 0;
             }
             return n;
         });
-        Check.tell(all, "glyphs", () -> allGlyphs.size());
-        Check.tell(all, "breaks", () -> breakList().size());
-        Check.tell(all, "tooWide", () -> tooWide);
-        Check.tell(all, "excess", () -> excess);
-        Check.tell(all, "lines", () -> needLines().size());
-        Check.tell(all, "linesByFirstFit", () -> needLines() == null ? 0 : firstFit());
-        Check.tell(all, "demerits", () -> needLines() == null ? 0 : least);
-        Check.tell(all, "demeritsByTrying", () -> few() == null ? 0 : least);
-        Check.tell(all, "linesByTrying", () -> few().size());
-        Check.tell(all, "hyphenShare", () -> {
+        tell(all, "glyphs()", () -> allGlyphs.size());
+        tell(all, "breaks()", () -> breakList().size());
+        tell(all, "tooWide()", () -> tooWide);
+        tell(all, "excess()", () -> excess);
+        tell(all, "lines()", () -> needLines().size());
+        tell(all, "linesByFirstFit()", () -> needLines() == null ? 0 : firstFit());
+        tell(all, "demerits()", () -> needLines() == null ? 0 : least);
+        tell(all, "demeritsByTrying()", () -> few() == null ? 0 : least);
+        tell(all, "linesByTrying()", () -> few().size());
+        tell(all, "hyphenShare()", () -> {
             int n = 0;
             for (List<Integer> line : some()) {
                 n += hyphen(line) ? 1 : 0;
             }
             return (float) n / (float) lines.size();
         });
-        Check.tell(all, "meanBadness", () -> {
+        tell(all, "meanBadness()", () -> {
             int sum = 0;
             for (int l = 0; l < some().size(); l++) {
                 sum += badness(lines.get(l), l == lines.size() - 1);
@@ -600,7 +601,7 @@ final class Naive {
         }
         for (int r = -1; r <= breakList().size(); r++) {
             int rank = r;
-            Check.tell(all, "breakAt " + r, () -> breakList().get(rank));
+            tell(all, "breakAt(" + r + ")", () -> breakList().get(rank));
         }
         int size = tooWide == -1 ? lines.size() : 1;
         for (int l = -1; l <= size; l++) {
@@ -610,30 +611,44 @@ final class Naive {
                 .replace("StringIndexOutOfBounds", "IndexOutOfBounds");
     }
 
+    /** The answers of such a telling, each by its question. */
+    static Map<String, String> byQuestion(String everything) {
+        Map<String, String> answers = new HashMap<>();
+        for (String line : everything.split("\n")) {
+            int sign = line.indexOf(" = ");
+            answers.put(line.substring(0, sign), line.substring(sign + 3));
+        }
+        return answers;
+    }
+
+    private static void tell(StringBuilder all, String what, Check.Call call) {
+        Check.tell(all, what, Check.answer(call));
+    }
+
     private void tellIndex(StringBuilder all, int i) {
-        Check.tell(all, "charAt " + i, () -> at(i));
-        Check.tell(all, "embeddingOf " + i, () -> embeddingOf(shown(i)));
-        Check.tell(all, "levelOf " + i, () -> levelOf(shown(i)));
-        Check.tell(all, "scriptOf " + i, () -> scriptOf(shown(i)));
-        Check.tell(all, "runOf " + i, () -> runOf(shown(i)));
-        Check.tell(all, "glyphOf " + i, () -> glyphAround(shown(i)).get(0));
-        Check.tell(all, "glyphStart " + i, () -> glyphAround(shown(i)).get(1));
-        Check.tell(all, "lineOf " + i, () -> lineOf(lined(i)));
-        Check.tell(all, "rankOf " + i, () -> rankOf(lined(i)));
-        Check.tell(all, "rankByCounting " + i, () -> rankOf(lined(i)));
-        Check.tell(all, "placeOf " + i, () -> placeAndWidth(lineOf(lined(i)), rankOf(i))[0]);
-        Check.tell(all, "justifiedWidth " + i, () -> placeAndWidth(lineOf(lined(i)), rankOf(i))[1]);
+        tell(all, "charAt(" + i + ")", () -> at(i));
+        tell(all, "embeddingOf(" + i + ")", () -> embeddingOf(shown(i)));
+        tell(all, "levelOf(" + i + ")", () -> levelOf(shown(i)));
+        tell(all, "scriptOf(" + i + ")", () -> scriptOf(shown(i)));
+        tell(all, "runOf(" + i + ")", () -> runOf(shown(i)));
+        tell(all, "glyphOf(" + i + ")", () -> glyphAround(shown(i)).get(0));
+        tell(all, "glyphStart(" + i + ")", () -> glyphAround(shown(i)).get(1));
+        tell(all, "lineOf(" + i + ")", () -> lineOf(lined(i)));
+        tell(all, "rankOf(" + i + ")", () -> rankOf(lined(i)));
+        tell(all, "rankByCounting(" + i + ")", () -> rankOf(lined(i)));
+        tell(all, "placeOf(" + i + ")", () -> placeAndWidth(lineOf(lined(i)), rankOf(i))[0]);
+        tell(all, "justifiedWidth(" + i + ")", () -> placeAndWidth(lineOf(lined(i)), rankOf(i))[1]);
     }
 
     private void tellLine(StringBuilder all, int l) {
-        Check.tell(all, "firstOf " + l, () -> needLines().get(l).get(0));
-        Check.tell(all, "widthOf " + l, () -> natural(needLines().get(l)));
-        Check.tell(all, "badnessOf " + l, () -> badness(needLines().get(l), l == lines.size() - 1));
-        Check.tell(all, "glyphsOf " + l, () -> visual(needLines().get(l)).size());
+        tell(all, "firstOf(" + l + ")", () -> needLines().get(l).get(0));
+        tell(all, "widthOf(" + l + ")", () -> natural(needLines().get(l)));
+        tell(all, "badnessOf(" + l + ")", () -> badness(needLines().get(l), l == lines.size() - 1));
+        tell(all, "glyphsOf(" + l + ")", () -> visual(needLines().get(l)).size());
         int ranks = l >= 0 && l < lines.size() ? visual(lines.get(l)).size() : 0;
         for (int r = -1; r <= ranks; r++) {
             int rank = r;
-            Check.tell(all, "glyphAt " + l + " " + r, () -> visual(needLines().get(l)).get(rank).get(1));
+            tell(all, "glyphAt(" + l + ", " + r + ")", () -> visual(needLines().get(l)).get(rank).get(1));
         }
     }
 

@@ -1,249 +1,419 @@
-/** Promises 32 to 39: visual order, places, justified widths and the means of the lines. */
-public final class OrderTest {
+/** Promises 32 to 37, and what 'Visual order' and 'Justification' say: a test for each sentence. */
+public final class OrderTest extends Check {
     public static void main(String[] args) {
-        orderOfOneLine();
-        orderOfDeepLevels();
-        orderOfManyLines();
-        orderOfLigatures();
-        orderWithoutDropped();
-        placesOfLastLines();
-        stretchedSpaces();
-        shrunkSpaces();
-        linesWithoutSpaces();
-        blankFirstLine();
-        hyphenShare();
-        meanBadness();
-        withoutLines();
-        notPossible();
-        Check.end();
+        reversing();
+        reversingDeepLevels();
+        reversingInEachLine();
+        reversingGlyphs();
+        ranksCounted();
+        secondWay();
+        justifiedLines();
+        linesNotJustified();
+        dividedDifference();
+        firstOnesFromTheLeft();
+        beginningOfJustified();
+        beginningOfOthers();
+        places();
+        glyphsOfLine();
+        glyphsByRank();
+        ranks();
+        justifiedWidths();
+        refusedLines();
+        refusedRanks();
+        refusedIndices();
+        refusedDroppedSpaces();
+        refusedWhereNotPossible();
+        refusedTwice();
+        end();
     }
 
-    private static Glyphmill mill(boolean isRight, int lineWidth, String text) {
-        Glyphmill mill = new Glyphmill();
-        mill.setBase(isRight);
-        mill.setLine(lineWidth);
-        Check.type(mill, text);
-        return mill;
-    }
-
-    private static void dueRanks(Glyphmill mill, String what, String want) {
-        Check.due(what + ": rankOf", want, () -> Check.each(mill, mill::rankOf));
-        Check.due(what + ": rankByCounting", want, () -> Check.each(mill, mill::rankByCounting));
+    private static void dueRanks(Mill mill, String want) {
+        dueEach(mill, Check::rankOf, want);
+        dueEach(mill, Check::rankByCounting, want);
     }
 
     /** The glyphs of a line from left to right, by their first characters. */
-    private static void dueRow(Glyphmill mill, String what, int line, String want) {
-        int size = want.isEmpty() ? 0 : want.split(" ").length;
-        Check.due(what + ": glyphsOf " + line, size, () -> mill.glyphsOf(line));
-        StringBuilder all = new StringBuilder();
-        for (int r = 0; r < size; r++) {
-            int rank = r;
-            all.append(r > 0 ? " " : "").append(Check.answer(() -> mill.glyphAt(line, rank)));
+    private static void dueOrder(Mill mill, int line, String want) {
+        due(mill, glyphsOf(line), want.isEmpty() ? 0 : want.split(" ").length);
+        dueRow(mill, rank -> glyphAt(line, rank), want);
+    }
+
+    private static void duePlaces(Mill mill, String places, String widths) {
+        dueEach(mill, Check::placeOf, places);
+        dueEach(mill, Check::justifiedWidth, widths);
+    }
+
+    private static String down(int from) {
+        StringBuilder all = new StringBuilder().append(from);
+        for (int i = from - 1; i >= 0; i--) {
+            all.append(' ').append(i);
         }
-        Check.due(what + ": glyphAt of " + line, want, all::toString);
-        for (int rank : new int[] {-1, size, size + 1, Integer.MIN_VALUE, Integer.MAX_VALUE}) {
-            Check.due(what + ": glyphAt " + line + " " + rank, Check.INDEX, () -> mill.glyphAt(line, rank));
+        return all.toString();
+    }
+
+    // ---- Visual order
+
+    private static void reversing() {
+        says("In each line, its glyphs without dropped spaces are put into visual order: from the highest level of them "
+                + "down to 1, each maximal sequence of glyphs in the line that have this level or a higher one is "
+                + "reversed.");
+        // the level 0 alone, 1 alone, and 2 alone, which is reversed twice
+        dueRanks(Mill.of("abc"), "0 1 2");
+        dueRanks(Mill.of("ABC"), "2 1 0");
+        dueRanks(Mill.right("abc"), "0 1 2");
+        dueRanks(Mill.of("[abc"), "m 0 1 2");
+        dueRanks(Mill.of("[ABC"), "m 2 1 0");
+        dueRanks(Mill.of("a"), "0");
+        dueRanks(Mill.of("A"), "0");
+        // sequences at the beginning, in the middle and at the end of a line
+        dueRanks(Mill.of("ABcDEfGH"), "1 0 2 4 3 5 7 6");
+        dueRanks(Mill.of("aBCd"), "0 2 1 3");
+        dueRanks(Mill.right("abCdeFgh"), "6 7 5 3 4 2 0 1");
+        dueRanks(Mill.of("a AB 12"), "0 1 6 5 4 2 3");
+        dueRanks(Mill.right("a AB 12"), "6 5 4 3 2 0 1");
+        dueOrder(Mill.of("a AB 12"), 0, "0 1 5 6 4 3 2");
+        dueOrder(Mill.right("a AB 12"), 0, "5 6 4 3 2 1 0");
+        dueRanks(Mill.of("A".repeat(50)).line(200), down(49));
+    }
+
+    private static void reversingDeepLevels() {
+        says("From the highest level of them down to 1: levels that are high, and levels that no glyph has.");
+        Mill deep = Mill.of("a{B[c{DE}fg}H}i");
+        dueEach(deep, Check::levelOf, "0 m 1 m 2 m 3 3 m 2 2 m 1 m 0");
+        dueOrder(deep, 0, "0 12 4 7 6 9 10 2 14");
+        dueRanks(deep, "0 m 7 m 2 m 4 3 m 5 6 m 1 m 8");
+        dueRanks(Mill.of("a[bc}d"), "0 m 1 2 m 3");
+        dueRanks(Mill.right("A{[bc}}D"), "3 m m 1 2 m m 0");
+        dueRanks(Mill.of("a[{BC}}d"), "0 m m 2 1 m m 3");
+        dueRanks(Mill.right("{{{{{AB12"), "m m m m m 3 2 0 1");
+        dueRanks(Mill.right("A{{{{{AB12}}}}}BC"), "6 m m m m m 5 4 2 3 m m m m m 1 0");
+        dueRanks(Mill.of("[[[[[aA12"), "m m m m m 0 3 1 2");
+    }
+
+    private static void reversingInEachLine() {
+        says("In each line, its glyphs without dropped spaces are put into visual order: each line alone.");
+        Mill mill = Mill.of("AB cd EF gh").line(20);
+        dueRanks(mill, "1 0 2 3 4 - 1 0 2 3 4");
+        dueOrder(mill, 0, "1 0 2 3 4");
+        dueOrder(mill, 1, "7 6 8 9 10");
+        dueRanks(Mill.of("AB CD EF GH").line(20), "4 3 2 1 0 - 4 3 2 1 0");
+        dueRanks(Mill.right("AB  ").line(20), "1 0 - -");
+        dueRanks(Mill.right("AB  C").line(20), "4 3 2 1 0");
+        dueRanks(Mill.right("AB  C").line(10), "1 0 - - 0");
+        dueRanks(Mill.right("  AB  ").line(20), "3 2 1 0 - -");
+    }
+
+    private static void reversingGlyphs() {
+        says("Its glyphs are put into visual order: a ligature is one of them.");
+        Mill mill = Mill.of("xABfi").rule('A', 'B', 30).rule('f', 'i', 5);
+        dueRanks(mill, "0 1 1 2 2");
+        dueOrder(mill, 0, "0 1 3");
+        duePlaces(mill, "0 4 4 34 34", "4 30 30 5 5");
+        dueRanks(mill.base(true), "2 1 1 0 0");
+        dueOrder(mill.base(true), 0, "3 1 0");
+        duePlaces(mill.base(true), "56 26 26 21 21", "4 30 30 5 5");
+    }
+
+    private static void ranksCounted() {
+        says("The rank of a glyph is its position from the left, counted from 0.");
+        dueRanks(Mill.of("a"), "0");
+        dueRanks(Mill.of("ab").line(10), "0 1");
+        dueRanks(Mill.of("aa bb").line(10), "0 1 - 0 1");
+        dueRanks(Mill.right("AA BB").line(10), "1 0 - 1 0");
+        due(Mill.of("a".repeat(50)).line(200), rankOf(49), 49);
+        due(Mill.of("A".repeat(50)).line(200), rankOf(49), 0);
+        due(Mill.of("A".repeat(50)).line(200), rankByCounting(0), 49);
+    }
+
+    private static void secondWay() {
+        says("In a second way, a glyph stands to the left of one that comes later in the text if and only if the lowest "
+                + "level of these two and of all glyphs between them in the text is even.");
+        // the lowest one stands first, last, and between them; it is 0, odd, and even again
+        dueEach(Mill.of("aB"), Check::rankByCounting, "0 1");
+        dueEach(Mill.of("Ab"), Check::rankByCounting, "0 1");
+        dueEach(Mill.of("BaB"), Check::rankByCounting, "0 1 2");
+        dueEach(Mill.right("aBa"), Check::rankByCounting, "2 1 0");
+        dueEach(Mill.right("aab"), Check::rankByCounting, "0 1 2");
+        dueEach(Mill.of("{a[Bc}D}"), Check::rankByCounting, "m 1 m 2 3 m 0 m");
+        // a dropped space between them and behind them does not count
+        dueEach(Mill.of("aa BB ").line(10), Check::rankByCounting, "0 1 - 1 0 -");
+    }
+
+    // ---- Justification
+
+    private static void justifiedLines() {
+        says("A line is justified if it has spaces that are not dropped and its difference is less than 0, or if it has "
+                + "such spaces and is not the last line.");
+        // the last line with the differences -1, 0 and 1
+        duePlaces(Mill.right("AA BB").line(19), "15 11 8 4 0", "4 4 3 4 4");
+        duePlaces(Mill.right("AA BB").line(20), "16 12 8 4 0", "4 4 4 4 4");
+        duePlaces(Mill.right("AA BB").line(21), "17 13 9 5 1", "4 4 4 4 4");
+        duePlaces(Mill.of("aa bb").line(19), "0 4 8 11 15", "4 4 3 4 4");
+        duePlaces(Mill.of("aa bb").line(21), "0 4 8 12 16", "4 4 4 4 4");
+        // one that is not the last one, with the differences -1, 0 and 1
+        duePlaces(Mill.right("A A BBBB").line(11).width('B', 2), "7 4 0 - 9 7 5 3", "4 3 4 - 2 2 2 2");
+        duePlaces(Mill.right("A A BBBB").line(12).width('B', 3), "8 4 0 - 9 6 3 0", "4 4 4 - 3 3 3 3");
+        duePlaces(Mill.right("A A BBBB").line(13).width('B', 3), "9 4 0 - 10 7 4 1", "4 5 4 - 3 3 3 3");
+    }
+
+    private static void linesNotJustified() {
+        says("A line is justified if it has spaces that are not dropped: one without them is not.");
+        duePlaces(Mill.of("aaa-bbb").line(20), "0 4 8 12 0 4 8", "4 4 4 4 4 4 4");
+        duePlaces(Mill.right("AAA-BBB").line(20), "16 12 8 4 16 12 8", "4 4 4 4 4 4 4");
+        duePlaces(Mill.right("AAAA BBBBB").line(20), "16 12 8 4 - 16 12 8 4 0", "4 4 4 4 - 4 4 4 4 4");
+        duePlaces(Mill.of("aaaa  [ }bbbbb").line(20), "0 4 8 12 - - m - m 0 4 8 12 16", "4 4 4 4 - - m - m 4 4 4 4 4");
+        duePlaces(Mill.right(" [ }AA").line(10), "- m - m 6 2", "- m - m 4 4");
+        // the only line is the last one
+        duePlaces(Mill.of("a b").line(200), "0 4 8", "4 4 4");
+        duePlaces(Mill.right("A B").line(200), "196 192 188", "4 4 4");
+    }
+
+    private static void dividedDifference() {
+        says("Then the difference is divided among its k spaces: each of them becomes wider, or narrower, by the size of "
+                + "the difference divided by k and rounded down");
+        duePlaces(Mill.of("a a aaaa").line(20), "0 4 16 - 0 4 8 12", "4 12 4 - 4 4 4 4");
+        duePlaces(Mill.right("A A AAAA").line(20), "16 4 0 - 16 12 8 4", "4 12 4 - 4 4 4 4");
+        duePlaces(Mill.of("a b c ddddd").line(24), "0 4 10 14 20 - 0 4 8 12 16", "4 6 4 6 4 - 4 4 4 4 4");
+        duePlaces(Mill.of("a b c").line(18), "0 4 7 11 14", "4 3 4 3 4");
+        duePlaces(Mill.of("a b c d eeee").line(25), "0 4 7 11 14 18 21 - 0 4 8 12", "4 3 4 3 4 3 4 - 4 4 4 4");
+        duePlaces(Mill.of(" a aa").line(10), "0 6 - 0 4", "6 4 - 4 4");
+        // down to nothing, and as wide as can be
+        duePlaces(Mill.of("aa bb").line(16).width(' ', 1), "0 4 8 8 12", "4 4 0 4 4");
+        duePlaces(Mill.of("a a " + "b".repeat(10)).line(200).width('a', 1).width('b', 20),
+                "0 1 199 - 0 20 40 60 80 100 120 140 160 180", "1 198 1 - 20 20 20 20 20 20 20 20 20 20");
+    }
+
+    private static void firstOnesFromTheLeft() {
+        says("and as many of them as the remainder is, the first ones from the left, by 1 more.");
+        // a remainder of 1 of 2: stretched, and shrunk
+        duePlaces(Mill.of("a b c ddddd").line(23), "0 4 10 14 19 - 0 4 8 12 16", "4 6 4 5 4 - 4 4 4 4 4");
+        duePlaces(Mill.right("A B C DDDDD").line(23), "19 14 10 4 0 - 19 15 11 7 3", "4 5 4 6 4 - 4 4 4 4 4");
+        duePlaces(Mill.of("a b c").line(19), "0 4 7 11 15", "4 3 4 4 4");
+        duePlaces(Mill.right("A B C").line(19), "15 11 7 4 0", "4 4 4 3 4");
+        // left words in a right line keep their order, and so do the spaces between them
+        duePlaces(Mill.right("a b c ddddd").line(23), "0 4 10 14 19 - 3 7 11 15 19", "4 6 4 5 4 - 4 4 4 4 4");
+        duePlaces(Mill.of("A B C DDDDD").line(23), "19 14 10 4 0 - 16 12 8 4 0", "4 5 4 6 4 - 4 4 4 4 4");
+        // 2 of 3, and 1 of 3
+        duePlaces(Mill.of("a  b c " + "d".repeat(8)).line(35), "0 4 12 20 24 31 - 0 4 8 12 16 20 24 28",
+                "4 8 8 4 7 4 - 4 4 4 4 4 4 4 4");
+        duePlaces(Mill.of("a  b c " + "d".repeat(8)).line(34), "0 4 12 19 23 30 - 0 4 8 12 16 20 24 28",
+                "4 8 7 4 7 4 - 4 4 4 4 4 4 4 4");
+        duePlaces(Mill.of("a b c d").line(26), "0 4 7 11 14 18 22", "4 3 4 3 4 4 4");
+        duePlaces(Mill.of("a b c d").line(27), "0 4 7 11 15 19 23", "4 3 4 4 4 4 4");
+        duePlaces(Mill.right("A B C D").line(26), "22 18 14 11 7 4 0", "4 4 4 3 4 3 4");
+        // a difference that is smaller than the number of spaces
+        duePlaces(Mill.of("a b c ddddd").line(21).width('d', 4), "0 4 9 13 17 - 0 4 8 12 16", "4 5 4 4 4 - 4 4 4 4 4");
+        // visual order goes through the levels of the spaces
+        duePlaces(Mill.of("a B C D e fffffffff").line(38), "0 4 26 22 18 13 9 30 34 - 0 4 8 12 16 20 24 28 32",
+                "4 5 4 4 4 5 4 4 4 - 4 4 4 4 4 4 4 4 4");
+    }
+
+    private static void beginningOfJustified() {
+        says("A justified line begins at the place 0.");
+        duePlaces(Mill.right("A B CCCC").line(20), "16 4 0 - 16 12 8 4", "4 12 4 - 4 4 4 4");
+        duePlaces(Mill.right("A B").line(11), "7 4 0", "4 3 4");
+        duePlaces(Mill.of("a b cccc").line(20), "0 4 16 - 0 4 8 12", "4 12 4 - 4 4 4 4");
+    }
+
+    private static void beginningOfOthers() {
+        says("A line that is not justified begins at 0 if the base level is 0, and at its difference if the base level "
+                + "is 1.");
+        duePlaces(Mill.of("AB"), "4 0", "4 4");
+        duePlaces(Mill.right("AB"), "56 52", "4 4");
+        duePlaces(Mill.right("ab"), "52 56", "4 4");
+        duePlaces(Mill.of("{AB}"), "m 4 0 m", "m 4 4 m");
+        duePlaces(Mill.right("[ab}"), "m 52 56 m", "m 4 4 m");
+        duePlaces(Mill.right("AA").line(10), "6 2", "4 4");
+        // the difference 0
+        duePlaces(Mill.right("aA").line(13).width('A', 9), "9 0", "4 9");
+        duePlaces(Mill.right("A   B").line(20), "16 12 8 4 0", "4 4 4 4 4");
+        // a line without spaces that is not the last one
+        duePlaces(Mill.right("AA BB").line(10), "6 2 - 6 2", "4 4 - 4 4");
+        duePlaces(Mill.of("aa bb").line(10), "0 4 - 0 4", "4 4 - 4 4");
+    }
+
+    private static void places() {
+        says("The place of a glyph is where its line begins plus the widths of all glyphs to the left of it.");
+        duePlaces(Mill.of("a AB 12"), "0 4 24 20 16 8 12", "4 4 4 4 4 4 4");
+        duePlaces(Mill.right("a AB 12"), "56 52 48 44 40 32 36", "4 4 4 4 4 4 4");
+        duePlaces(Mill.right("aA").width('A', 9), "56 47", "4 9");
+        duePlaces(Mill.of("abC").width('a', 20).width('b', 1), "0 20 21", "20 1 4");
+        duePlaces(Mill.of("fifi").line(80).rule('f', 'i', 40), "0 0 40 40", "40 40 40 40");
+    }
+
+    // ---- promises 32 to 37
+
+    private static void glyphsOfLine() {
+        says("Returns the number of glyphs of a line without dropped spaces.");
+        dueRow(Mill.of("a"), Check::glyphsOf, "1");
+        dueRow(Mill.of("a  "), Check::glyphsOf, "1");
+        dueRow(Mill.of("  a b  "), Check::glyphsOf, "5");
+        dueRow(Mill.of("  aa").line(10), Check::glyphsOf, "0 2");
+        dueRow(Mill.of("aa[ }bb-").line(12), Check::glyphsOf, "2 3");
+        dueRow(Mill.of("fi fi").rule('f', 'i', 4), Check::glyphsOf, "3");
+        dueRow(Mill.of("a".repeat(50)).line(200), Check::glyphsOf, "50");
+        dueRow(Mill.of("  "), Check::glyphsOf, "");
+    }
+
+    private static void glyphsByRank() {
+        says("glyphAt returns the index of the first character of the glyph.");
+        dueOrder(Mill.of("[{AB"), 0, "3 2");
+        dueOrder(Mill.of("x[f}{i").rule('f', 'i', 4), 0, "0 2");
+        dueOrder(Mill.of("aa [BB}").line(10), 1, "5 4");
+        dueOrder(Mill.of("  aa").line(10), 0, "");
+        dueOrder(Mill.of("  aa").line(10), 1, "2 3");
+    }
+
+    private static void ranks() {
+        says("Returns the rank of the glyph that contains a character, found by reversing. Returns the same as rankOf, "
+                + "found by counting the glyphs that stand to the left by the second way.");
+        dueRanks(Mill.of("xfilx").rule('f', 'i', 4).rule(200, 'l', 4), "0 1 1 1 2");
+        dueRanks(Mill.of("A[}B").rule('A', 'B', 4), "0 m m 0");
+        dueRanks(Mill.of(" a b  "), "0 1 2 3 - -");
+        dueRanks(Mill.of("aa bb ").line(10), "0 1 - 0 1 -");
+    }
+
+    private static void justifiedWidths() {
+        says("Returns the width of the glyph that contains a character as it stands in its line; for a space that is "
+                + "stretched or shrunk the changed one.");
+        dueEach(Mill.of("fi fi xxx").rule('f', 'i', 5).line(16), Check::justifiedWidth, "5 5 6 5 5 - 4 4 4");
+        dueEach(Mill.of("fi fi").rule('f', 'i', 5).line(13), Check::justifiedWidth, "5 5 3 5 5");
+        dueEach(Mill.of("fi fi").rule('f', 'i', 5).line(15), Check::justifiedWidth, "5 5 4 5 5");
+    }
+
+    private static void refusedLines() {
+        says("glyphsOf and glyphAt throw `IndexOutOfBoundsException` if there is no such line");
+        Mill two = Mill.of("aa {bb}").line(10);
+        for (int line : new int[] {-1, 2, 3, 50, LEAST, MOST}) {
+            refused(two, glyphsOf(line), INDEX);
+            refused(two, glyphAt(line, 0), INDEX);
+            refused(two, glyphAt(line, 1), INDEX);
+        }
+        for (String text : new String[] {"", " ", "[", " [ "}) {
+            for (int line : new int[] {0, 1, -1}) {
+                refused(Mill.of(text), glyphsOf(line), INDEX);
+                refused(Mill.of(text), glyphAt(line, 0), INDEX);
+            }
+        }
+        due(two, glyphsOf(1), 2);
+        refused(Mill.of("-".repeat(50)).line(10).width('-', 10), glyphsOf(50), INDEX);
+        refused(Mill.of("-".repeat(50)).line(10).width('-', 10), glyphAt(50, 0), INDEX);
+    }
+
+    private static void refusedRanks() {
+        says("glyphAt throws `IndexOutOfBoundsException` if it has no such rank");
+        Mill two = Mill.of("aaa  b ").line(12);
+        for (int rank : new int[] {-1, 3, 4, LEAST, MOST}) {
+            refused(two, glyphAt(0, rank), INDEX);
+        }
+        for (int rank : new int[] {-1, 1, 2, LEAST, MOST}) {
+            refused(two, glyphAt(1, rank), INDEX);
+        }
+        due(two, glyphAt(0, 0), 0);
+        due(two, glyphAt(0, 2), 2);
+        due(two, glyphAt(1, 0), 5);
+        refused(Mill.of("  aa").line(10), glyphAt(0, 0), INDEX);
+        refused(Mill.of("a".repeat(50)).line(200), glyphAt(0, 50), INDEX);
+        due(Mill.of("a".repeat(50)).line(200), glyphAt(0, 49), 49);
+    }
+
+    private static Ask[] questions(int i) {
+        return new Ask[] {rankOf(i), rankByCounting(i), placeOf(i), justifiedWidth(i)};
+    }
+
+    private static void refusedIndices() {
+        says("rankOf, rankByCounting, placeOf and justifiedWidth throw `IndexOutOfBoundsException` if there is no such "
+                + "index, `UnsupportedOperationException` if it is a mark");
+        for (int i : new int[] {-1, 7, 8, 50, LEAST, MOST}) {
+            for (Ask ask : questions(i)) {
+                refused(Mill.of("aa {bb}").line(10), ask, INDEX);
+                refused(Mill.NEW, ask, INDEX);
+            }
+        }
+        for (int i : new int[] {3, 6}) {
+            for (Ask ask : questions(i)) {
+                refused(Mill.of("aa {bb}").line(10), ask, UNSUPPORTED);
+            }
+        }
+        for (Ask ask : questions(0)) {
+            refused(Mill.NEW, ask, INDEX);
+            refused(Mill.of("["), ask, UNSUPPORTED);
         }
     }
 
-    private static void duePlaces(Glyphmill mill, String what, String places, String widths) {
-        Check.due(what + ": placeOf", places, () -> Check.each(mill, mill::placeOf));
-        Check.due(what + ": justifiedWidth", widths, () -> Check.each(mill, mill::justifiedWidth));
-    }
-
-    private static void orderOfOneLine() {
-        Glyphmill mill = mill(false, 60, "a AB 12");
-        dueRanks(mill, "left to right", "0 1 6 5 4 2 3");
-        dueRow(mill, "left to right", 0, "0 1 5 6 4 3 2");
-        mill.setBase(true);
-        dueRanks(mill, "right to left", "6 5 4 3 2 0 1");
-        dueRow(mill, "right to left", 0, "5 6 4 3 2 1 0");
-        dueRanks(mill(false, 60, "abc"), "left letters", "0 1 2");
-        dueRanks(mill(true, 60, "abc"), "left letters in a right line", "0 1 2");
-        dueRanks(mill(false, 60, "ABC"), "right letters", "2 1 0");
-        dueRow(mill(false, 60, "A"), "one letter", 0, "0");
-    }
-
-    private static void orderOfDeepLevels() {
-        // levels 0 1 2 3 2 1 0: the levels from 3 on, then from 2 on, then from 1 on are reversed
-        Glyphmill mill = mill(false, 60, "a{B[c{DE}fg}H}i");
-        Check.due("deep levels", "0 m 1 m 2 m 3 3 m 2 2 m 1 m 0", () -> Check.levels(mill));
-        dueRow(mill, "deep levels", 0, "0 12 4 7 6 9 10 2 14");
-        dueRanks(mill, "deep levels", "0 m 7 m 2 m 4 3 m 5 6 m 1 m 8");
-        // a level that is skipped: 0 2 0, and 1 4 1
-        dueRanks(mill(false, 60, "a[bc}d"), "skipped levels", "0 m 1 2 m 3");
-        dueRanks(mill(true, 60, "A{[bc}}D"), "skipped levels from right to left", "3 m m 1 2 m m 0");
-    }
-
-    private static void orderOfManyLines() {
-        Glyphmill mill = mill(false, 20, "AB cd EF gh");
-        // the levels are 1 1 0 0 0 0 1 1 0 0 0, and each line is put into order alone
-        dueRanks(mill, "two lines", "1 0 2 3 4 - 1 0 2 3 4");
-        dueRow(mill, "two lines", 0, "1 0 2 3 4");
-        dueRow(mill, "two lines", 1, "7 6 8 9 10");
-        for (int line : new int[] {-1, 2, Integer.MIN_VALUE, Integer.MAX_VALUE}) {
-            Check.refuses(mill, "glyphsOf " + line, Check.INDEX, () -> mill.glyphsOf(line));
-            Check.refuses(mill, "glyphAt " + line, Check.INDEX, () -> mill.glyphAt(line, 0));
+    private static void refusedDroppedSpaces() {
+        says("rankOf, rankByCounting, placeOf and justifiedWidth throw `NoSuchElementException` if it is a dropped space or "
+                + "there are no lines");
+        for (int i : new int[] {0, 1, 4, 5, 8, 9}) {
+            for (Ask ask : questions(i)) {
+                refused(Mill.of("  aa  bb  ").line(10), ask, NO_ELEMENT);
+            }
         }
-        Glyphmill right = mill(false, 20, "AB CD EF GH");
-        dueRanks(right, "two right lines", "4 3 2 1 0 - 4 3 2 1 0");
-    }
-
-    private static void orderOfLigatures() {
-        Glyphmill mill = mill(false, 60, "xABfi");
-        mill.addLigature('A', 'B', 30);
-        mill.addLigature('f', 'i', 5);
-        dueRanks(mill, "ligatures", "0 1 1 2 2");
-        dueRow(mill, "ligatures", 0, "0 1 3");
-        duePlaces(mill, "ligatures", "0 4 4 34 34", "4 30 30 5 5");
-        mill.setBase(true);
-        dueRanks(mill, "ligatures from right to left", "2 1 1 0 0");
-        duePlaces(mill, "ligatures from right to left", "56 26 26 21 21", "4 30 30 5 5");
-    }
-
-    private static void orderWithoutDropped() {
-        Glyphmill mill = mill(true, 60, "AB  ");
-        dueRanks(mill, "dropped at the end", "1 0 - -");
-        dueRow(mill, "dropped at the end", 0, "1 0");
-        Check.refuses(mill, "rankOf of a dropped space", Check.NO_ELEMENT, () -> mill.rankOf(2));
-        Check.refuses(mill, "rankByCounting of a dropped space", Check.NO_ELEMENT, () -> mill.rankByCounting(3));
-        Check.refuses(mill, "placeOf of a dropped space", Check.NO_ELEMENT, () -> mill.placeOf(2));
-        Check.refuses(mill, "justifiedWidth of a dropped space", Check.NO_ELEMENT, () -> mill.justifiedWidth(3));
-        Check.due("lineOf of a dropped space", 0, () -> mill.lineOf(3));
-        Check.due("glyphs with the dropped", 4, mill::glyphs);
-        Check.type(mill, "C");
-        dueRanks(mill, "no more dropped", "4 3 2 1 0");
-    }
-
-    private static void placesOfLastLines() {
-        duePlaces(mill(false, 60, "a AB 12"), "left to right", "0 4 24 20 16 8 12", "4 4 4 4 4 4 4");
-        duePlaces(mill(true, 60, "a AB 12"), "right to left", "56 52 48 44 40 32 36", "4 4 4 4 4 4 4");
-        Glyphmill mill = mill(true, 60, "aA");
-        mill.setWidth('A', 9);
-        duePlaces(mill, "other widths", "56 47", "4 9");
-        mill.setLine(13);
-        duePlaces(mill, "an exact width", "9 0", "4 9");
-        duePlaces(mill(true, 20, "A   B"), "an exact width with spaces", "16 12 8 4 0", "4 4 4 4 4");
-    }
-
-    private static void stretchedSpaces() {
-        duePlaces(mill(false, 20, "a a aaaa"), "one space", "0 4 16 - 0 4 8 12", "4 12 4 - 4 4 4 4");
-        duePlaces(mill(true, 20, "A A AAAA"), "one space from right to left", "16 4 0 - 16 12 8 4",
-                "4 12 4 - 4 4 4 4");
-        // a difference of 3 and two spaces: the left one of them becomes wider by 2, the other one by 1
-        duePlaces(mill(false, 23, "a b c ddddd"), "a remainder", "0 4 10 14 19 - 0 4 8 12 16",
-                "4 6 4 5 4 - 4 4 4 4 4");
-        duePlaces(mill(true, 23, "A B C DDDDD"), "a remainder from right to left", "19 14 10 4 0 - 19 15 11 7 3",
-                "4 5 4 6 4 - 4 4 4 4 4");
-        // in a right line left words keep their order, and so do the spaces between them
-        duePlaces(mill(true, 23, "a b c ddddd"), "a remainder among left letters", "0 4 10 14 19 - 3 7 11 15 19",
-                "4 6 4 5 4 - 4 4 4 4 4");
-        // a difference of 11 and three spaces: 4, 4 and 3 more
-        duePlaces(mill(false, 35, "a  b c " + "d".repeat(8)), "two spaces side by side",
-                "0 4 12 20 24 31 - 0 4 8 12 16 20 24 28", "4 8 8 4 7 4 - 4 4 4 4 4 4 4 4");
-        // leading spaces are stretched, too
-        duePlaces(mill(false, 10, " a aa"), "a leading space", "0 6 - 0 4", "6 4 - 4 4");
-    }
-
-    private static void shrunkSpaces() {
-        duePlaces(mill(false, 19, "aa bb"), "one space", "0 4 8 11 15", "4 4 3 4 4");
-        duePlaces(mill(true, 19, "AA BB"), "one space from right to left", "15 11 8 4 0", "4 4 3 4 4");
-        duePlaces(mill(false, 19, "a b c"), "the first of two", "0 4 7 11 15", "4 3 4 4 4");
-        duePlaces(mill(true, 19, "A B C"), "the left one of two", "15 11 7 4 0", "4 4 4 3 4");
-        duePlaces(mill(false, 18, "a b c"), "both", "0 4 7 11 14", "4 3 4 3 4");
-        duePlaces(mill(false, 26, "a b c d"), "two of three", "0 4 7 11 14 18 22", "4 3 4 3 4 4 4");
-        duePlaces(mill(false, 25, "a b c d eeee"), "all of three, not in the last line",
-                "0 4 7 11 14 18 21 - 0 4 8 12", "4 3 4 3 4 3 4 - 4 4 4 4");
-        Glyphmill mill = mill(false, 16, "aa bb");
-        mill.setWidth(' ', 1);
-        duePlaces(mill, "a space of no width", "0 4 8 8 12", "4 4 0 4 4");
-    }
-
-    private static void linesWithoutSpaces() {
-        duePlaces(mill(false, 20, "aaa-bbb"), "left to right", "0 4 8 12 0 4 8", "4 4 4 4 4 4 4");
-        duePlaces(mill(true, 20, "AAA-BBB"), "right to left", "16 12 8 4 16 12 8", "4 4 4 4 4 4 4");
-        duePlaces(mill(true, 20, "AAAA BBBBB"), "a dropped space", "16 12 8 4 - 16 12 8 4 0",
-                "4 4 4 4 - 4 4 4 4 4");
-    }
-
-    private static void blankFirstLine() {
-        Glyphmill mill = mill(true, 10, " [ }AA");
-        dueRow(mill, "a first line of spaces", 0, "");
-        dueRow(mill, "the line behind it", 1, "5 4");
-        dueRanks(mill, "a first line of spaces", "- m - m 1 0");
-        duePlaces(mill, "a first line of spaces", "- m - m 6 2", "- m - m 4 4");
-        Check.due("its width", 0, () -> mill.widthOf(0));
-        Check.due("its badness", 10000, () -> mill.badnessOf(0));
-        Check.due("the mean badness", 5000.0, mill::meanBadness);
-        Check.due("the share of hyphens", 0f, mill::hyphenShare);
-    }
-
-    private static Glyphmill hyphened(String text) {
-        Glyphmill mill = mill(false, 10, text);
-        mill.setWidth('-', 2);
-        return mill;
-    }
-
-    private static void hyphenShare() {
-        Check.due("no hyphens", 0f, () -> hyphened("aa bb").hyphenShare());
-        Check.due("one of two", 0.5f, () -> hyphened("aa-bb").hyphenShare());
-        Check.due("two of three", 2f / 3f, () -> hyphened("aa-bb-cc").hyphenShare());
-        Check.due("one of three", 1f / 3f, () -> hyphened("aa-bb cc").hyphenShare());
-        Check.due("three of three", 1f, () -> hyphened("aa-bb-cc-").hyphenShare());
-        Check.due("a mark behind the last hyphen", 1f, () -> hyphened("aa-[bb-}").hyphenShare());
-        Check.due("a space behind the hyphen", 0f, () -> hyphened("aa- bb- ").hyphenShare());
-        Check.due("one of one", 1f, () -> hyphened("-").hyphenShare());
-        Check.due("one of seven", 1f / 7f, () -> hyphened("aa bb aa-bb aa bb aa").hyphenShare());
-    }
-
-    private static void meanBadness() {
-        Check.due("one line", 0.0, () -> mill(false, 60, "ab").meanBadness());
-        Check.due("one line that is shrunk", 12.0, () -> mill(false, 19, "a b c").meanBadness());
-        Check.due("two lines", 3200.0, () -> mill(false, 20, "a a aaaa").meanBadness());
-        Check.due("535 of two", 267.5, () -> mill(false, 27, "a b c ddddd").meanBadness());
-        Check.due("three lines", 10000.0 / 3.0, () -> hyphened("aa-b aa").meanBadness());
-        Check.due("20000 of three", 20000.0 / 3.0, () -> hyphened("aa bb cc").meanBadness());
-    }
-
-    private static void withoutLines() {
-        Glyphmill empty = new Glyphmill();
-        Check.refuses(empty, "hyphenShare", Check.ARITHMETIC, empty::hyphenShare);
-        Check.refuses(empty, "meanBadness", Check.ARITHMETIC, empty::meanBadness);
-        Glyphmill mill = Check.mill(" [ ");
-        Check.refuses(mill, "hyphenShare of spaces", Check.ARITHMETIC, mill::hyphenShare);
-        Check.refuses(mill, "meanBadness of spaces", Check.ARITHMETIC, mill::meanBadness);
-        Check.refuses(mill, "glyphsOf of spaces", Check.INDEX, () -> mill.glyphsOf(0));
-        Check.refuses(mill, "glyphAt of spaces", Check.INDEX, () -> mill.glyphAt(0, 0));
-        dueRefusals(mill, -1, Check.INDEX);
-        dueRefusals(mill, 3, Check.INDEX);
-        dueRefusals(mill, 1, Check.UNSUPPORTED);
-        dueRefusals(mill, 0, Check.NO_ELEMENT);
-        dueRefusals(mill, 2, Check.NO_ELEMENT);
-    }
-
-    private static void notPossible() {
-        Glyphmill mill = mill(false, 10, "aa [aaa ");
-        Check.refuses(mill, "hyphenShare", Check.STATE, mill::hyphenShare);
-        Check.refuses(mill, "meanBadness", Check.STATE, mill::meanBadness);
-        for (int line : new int[] {-1, 0, 9}) {
-            Check.refuses(mill, "glyphsOf " + line, Check.STATE, () -> mill.glyphsOf(line));
-            Check.refuses(mill, "glyphAt " + line, Check.STATE, () -> mill.glyphAt(line, 0));
-            Check.refuses(mill, "glyphAt -1 of " + line, Check.STATE, () -> mill.glyphAt(line, -1));
+        for (int i : new int[] {0, 2}) {
+            for (Ask ask : questions(i)) {
+                refused(Mill.of(" [ "), ask, NO_ELEMENT);
+            }
         }
-        dueRefusals(mill, Integer.MIN_VALUE, Check.INDEX);
-        dueRefusals(mill, -1, Check.INDEX);
-        dueRefusals(mill, 8, Check.INDEX);
-        dueRefusals(mill, Integer.MAX_VALUE, Check.INDEX);
-        dueRefusals(mill, 3, Check.UNSUPPORTED);
-        dueRefusals(mill, 0, Check.STATE);
-        dueRefusals(mill, 7, Check.STATE);
+        for (Ask ask : questions(49)) {
+            refused(Mill.of(" ".repeat(50)), ask, NO_ELEMENT);
+            refused(Mill.of("a" + " ".repeat(49)), ask, NO_ELEMENT);
+        }
+        // a space is not dropped any more as soon as something comes behind it in its line
+        for (Ask ask : questions(1)) {
+            refused(Mill.of("a "), ask, NO_ELEMENT);
+            refused(Mill.of("a [}"), ask, NO_ELEMENT);
+            refused(Mill.of("a b").cut(1), ask, NO_ELEMENT);
+            refused(Mill.of("a bb").line(10), ask, NO_ELEMENT);
+        }
+        due(Mill.of("a b"), rankOf(1), 1);
+        due(Mill.of("a b"), rankByCounting(1), 1);
+        due(Mill.of("a b"), placeOf(1), 4);
+        due(Mill.of("a b"), justifiedWidth(1), 4);
     }
 
-    private static void dueRefusals(Glyphmill mill, int index, String exception) {
-        Check.refuses(mill, "lineOf " + index, exception, () -> mill.lineOf(index));
-        Check.refuses(mill, "rankOf " + index, exception, () -> mill.rankOf(index));
-        Check.refuses(mill, "rankByCounting " + index, exception, () -> mill.rankByCounting(index));
-        Check.refuses(mill, "placeOf " + index, exception, () -> mill.placeOf(index));
-        Check.refuses(mill, "justifiedWidth " + index, exception, () -> mill.justifiedWidth(index));
+    private static void refusedWhereNotPossible() {
+        says("They throw `IllegalStateException` if lines are not possible (visual order).");
+        for (Mill mill : new Mill[] {Mill.of("aaa").line(11), Mill.of("aa [aaa ").line(11)}) {
+            refused(mill, glyphsOf(0), STATE);
+            refused(mill, glyphAt(0, 0), STATE);
+            for (Ask ask : questions(0)) {
+                refused(mill, ask, STATE);
+                due(mill.line(12), ask, ask.name().startsWith("justified") ? 4 : 0);
+            }
+        }
+    }
+
+    private static void refusedTwice() {
+        says("If several exceptions apply, the one that is listed first is thrown (visual order).");
+        Mill mill = Mill.of("aa [aaa ").line(11);
+        for (int line : new int[] {-1, 0, 1, 2, 50, LEAST, MOST}) {
+            refused(mill, glyphsOf(line), STATE);
+            refused(mill, glyphAt(line, 0), STATE);
+            refused(mill, glyphAt(line, -1), STATE);
+            refused(mill, glyphAt(line, MOST), STATE);
+        }
+        // no such index, a mark, and a dropped space, where lines are not possible
+        for (int i : new int[] {-1, 8, LEAST, MOST}) {
+            for (Ask ask : questions(i)) {
+                refused(mill, ask, INDEX);
+            }
+        }
+        for (Ask ask : questions(3)) {
+            refused(mill, ask, UNSUPPORTED);
+        }
+        for (int i : new int[] {2, 7}) {
+            for (Ask ask : questions(i)) {
+                refused(mill, ask, STATE);
+            }
+        }
+        // no such index, and a mark, where there are no lines
+        for (int i : new int[] {-1, 3, LEAST, MOST}) {
+            for (Ask ask : questions(i)) {
+                refused(Mill.of(" [ "), ask, INDEX);
+            }
+        }
+        for (Ask ask : questions(1)) {
+            refused(Mill.of(" [ "), ask, UNSUPPORTED);
+        }
     }
 }
