@@ -55,7 +55,7 @@ public final class BreaksTest extends Check {
     }
 
     private static void breakRanks() {
-        says("breakAt throws `IndexOutOfBoundsException` if there is no such rank");
+        says("Promise 20: breakAt throws `IndexOutOfBoundsException` if there is no such rank");
         for (int rank : new int[] {-1, 3, 4, 50, LEAST, MOST}) {
             refused(Mill.of("ab cd-ef  g"), breakAt(rank), INDEX);
         }
@@ -75,7 +75,7 @@ public final class BreaksTest extends Check {
     }
 
     private static void breaksCounted() {
-        says("breaks returns the number of break places.");
+        says("Promise 19: breaks returns the number of break places.");
         due(Mill.NEW, breaks(), 0);
         due(Mill.of("a"), breaks(), 0);
         due(Mill.of("["), breaks(), 0);
@@ -246,7 +246,7 @@ public final class BreaksTest extends Check {
     // ---- promises 21 and 22
 
     private static void tooWideBegins() {
-        says("tooWide returns the index of the first character of the part that is not a mark, or -1 if lines are "
+        says("Promise 21: tooWide returns the index of the first character of the part that is not a mark, or -1 if lines are "
                 + "possible.");
         due(Mill.NEW, tooWide(), -1);
         due(Mill.of("aaa").line(12), tooWide(), -1);
@@ -269,7 +269,7 @@ public final class BreaksTest extends Check {
     }
 
     private static void excessOfPart() {
-        says("excess returns by how much this part is wider than the line width, or 0 if lines are possible.");
+        says("Promise 22: excess returns by how much this part is wider than the line width, or 0 if lines are possible.");
         due(Mill.NEW, excess(), 0);
         due(Mill.of("aaa").line(12), excess(), 0);
         due(Mill.of("aa").line(12), excess(), 0);

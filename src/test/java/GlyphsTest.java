@@ -11,8 +11,10 @@ public final class GlyphsTest extends Check {
         ruleAddedLater();
         glyphsCounted();
         glyphStarts();
-        refusedIndices();
-        refusedMarks();
+        refusedIndices("Promise 16: glyphOf", Check::glyphOf);
+        refusedIndices("Promise 17: glyphStart", Check::glyphStart);
+        refusedMarks("Promise 16: glyphOf", Check::glyphOf);
+        refusedMarks("Promise 17: glyphStart", Check::glyphStart);
         end();
     }
 
@@ -139,7 +141,7 @@ public final class GlyphsTest extends Check {
     }
 
     private static void glyphsCounted() {
-        says("Returns the number of glyphs of the text, those of spaces included.");
+        says("Promise 18: Returns the number of glyphs of the text, those of spaces included.");
         due(Mill.NEW, glyphs(), 0);
         due(Mill.of("[{}"), glyphs(), 0);
         due(Mill.of("a"), glyphs(), 1);
@@ -153,7 +155,7 @@ public final class GlyphsTest extends Check {
     }
 
     private static void glyphStarts() {
-        says("glyphStart returns the index of the first character of the glyph.");
+        says("Promise 17: glyphStart returns the index of the first character of the glyph.");
         Mill mill = Mill.NEW.rule('f', 'i', 5).rule(200, 'l', 7);
         dueEach(mill.type("[f{}i}[l"), Check::glyphStart, "m 1 m m 1 m m 1");
         dueEach(mill.type("f".repeat(49) + "i"), Check::glyphStart, ordered(49) + " 48");
@@ -168,29 +170,24 @@ public final class GlyphsTest extends Check {
         return all.toString();
     }
 
-    private static void refusedIndices() {
-        says("glyphOf and glyphStart throw `IndexOutOfBoundsException` if there is no such index");
+    private static void refusedIndices(String promise, OfIndex question) {
+        says(promise + " throws `IndexOutOfBoundsException` if there is no such index");
         for (int i : new int[] {-1, 4, 5, 50, 200, LEAST, MOST}) {
-            refused(Mill.of("a[b-"), glyphOf(i), INDEX);
-            refused(Mill.of("a[b-"), glyphStart(i), INDEX);
+            refused(Mill.of("a[b-"), question.of(i), INDEX);
         }
         for (int i : new int[] {-1, 0, 1}) {
-            refused(Mill.NEW, glyphOf(i), INDEX);
-            refused(Mill.NEW, glyphStart(i), INDEX);
+            refused(Mill.NEW, question.of(i), INDEX);
         }
-        refused(Mill.of("fi").rule('f', 'i', 3).cut(1), glyphOf(1), INDEX);
-        refused(Mill.of("fi").rule('f', 'i', 3).cut(1), glyphStart(1), INDEX);
-        refused(Mill.of("a".repeat(50)), glyphOf(50), INDEX);
-        refused(Mill.of("a".repeat(50)), glyphStart(50), INDEX);
+        refused(Mill.of("fi").rule('f', 'i', 3).cut(1), question.of(1), INDEX);
+        refused(Mill.of("a".repeat(50)), question.of(50), INDEX);
     }
 
-    private static void refusedMarks() {
-        says("glyphOf and glyphStart throw `UnsupportedOperationException` if it is a mark");
+    private static void refusedMarks(String promise, OfIndex question) {
+        says(promise + " throws `UnsupportedOperationException` if it is a mark");
         for (int i : new int[] {0, 2, 3, 5}) {
-            refused(Mill.of("[f{}i}").rule('f', 'i', 3), glyphOf(i), UNSUPPORTED);
-            refused(Mill.of("[f{}i}").rule('f', 'i', 3), glyphStart(i), UNSUPPORTED);
+            refused(Mill.of("[f{}i}").rule('f', 'i', 3), question.of(i), UNSUPPORTED);
         }
-        refused(Mill.of("["), glyphOf(0), UNSUPPORTED);
-        refused(Mill.of("{"), glyphStart(0), UNSUPPORTED);
+        refused(Mill.of("["), question.of(0), UNSUPPORTED);
+        refused(Mill.of("[" + "a".repeat(48) + "{"), question.of(49), UNSUPPORTED);
     }
 }

@@ -20,8 +20,14 @@ public final class LevelsTest extends Check {
         runsAreMaximal();
         runNumbers();
         runsCounted();
-        refusedIndices();
-        refusedMarks();
+        refusedIndices("Promise 11: embeddingOf", Check::embeddingOf);
+        refusedIndices("Promise 12: levelOf", Check::levelOf);
+        refusedIndices("Promise 13: scriptOf", Check::scriptOf);
+        refusedIndices("Promise 14: runOf", Check::runOf);
+        refusedMarks("Promise 11: embeddingOf", Check::embeddingOf);
+        refusedMarks("Promise 12: levelOf", Check::levelOf);
+        refusedMarks("Promise 13: scriptOf", Check::scriptOf);
+        refusedMarks("Promise 14: runOf", Check::runOf);
         end();
     }
 
@@ -369,7 +375,7 @@ public final class LevelsTest extends Check {
     }
 
     private static void runsCounted() {
-        says("runs returns the number of runs.");
+        says("Promise 15: runs returns the number of runs.");
         due(Mill.NEW, runs(), 0);
         due(Mill.of("[{}}"), runs(), 0);
         due(Mill.of("a"), runs(), 1);
@@ -384,44 +390,30 @@ public final class LevelsTest extends Check {
 
     // ---- promises 11 to 14
 
-    private static Ask[] questions(int i) {
-        return new Ask[] {embeddingOf(i), levelOf(i), scriptOf(i), runOf(i)};
-    }
-
-    private static void refusedIndices() {
-        says("embeddingOf, levelOf, scriptOf and runOf throw `IndexOutOfBoundsException` if there is no such index");
+    private static void refusedIndices(String promise, OfIndex question) {
+        says(promise + " throws `IndexOutOfBoundsException` if there is no such index");
         for (int i : new int[] {-1, 4, 5, 50, LEAST, MOST}) {
-            for (Ask ask : questions(i)) {
-                refused(Mill.of("a[b-"), ask, INDEX);
-                refused(Mill.NEW, ask, INDEX);
-            }
+            refused(Mill.of("a[b-"), question.of(i), INDEX);
+            refused(Mill.NEW, question.of(i), INDEX);
         }
-        for (Ask ask : questions(0)) {
-            refused(Mill.NEW, ask, INDEX);
-            refused(Mill.of("a").cut(1), ask, INDEX);
-        }
-        for (Ask ask : questions(3)) {
-            refused(Mill.of("a[b-").cut(1), ask, INDEX);
-        }
-        for (Ask ask : questions(50)) {
-            refused(Mill.of("An-1 ".repeat(10)).cut(50).type("a".repeat(50)), ask, INDEX);
-        }
-        dueEach(Mill.of("a".repeat(49) + "A"), Check::levelOf, "0 ".repeat(49) + "1");
+        refused(Mill.NEW, question.of(0), INDEX);
+        refused(Mill.of("a").cut(1), question.of(0), INDEX);
+        refused(Mill.of("a[b-").cut(1), question.of(3), INDEX);
+        refused(Mill.of("An-1 ".repeat(10)).cut(50).type("a".repeat(50)), question.of(50), INDEX);
+        refused(Mill.of("a".repeat(49)), question.of(49), INDEX);
+        // the first and the last index that there are
+        due(Mill.of("a".repeat(50)), question.of(0), 0);
+        due(Mill.of("a".repeat(50)), question.of(49), 0);
     }
 
-    private static void refusedMarks() {
-        says("embeddingOf, levelOf, scriptOf and runOf throw `UnsupportedOperationException` if it is a mark");
+    private static void refusedMarks(String promise, OfIndex question) {
+        says(promise + " throws `UnsupportedOperationException` if it is a mark");
         for (int i : new int[] {0, 2, 4, 5}) {
-            for (Ask ask : questions(i)) {
-                refused(Mill.of("[a{b}}"), ask, UNSUPPORTED);
-            }
+            refused(Mill.of("[a{b}}"), question.of(i), UNSUPPORTED);
         }
-        for (Ask ask : questions(0)) {
-            refused(Mill.of("["), ask, UNSUPPORTED);
-            refused(Mill.of("{}"), ask, UNSUPPORTED);
-        }
-        for (Ask ask : questions(49)) {
-            refused(Mill.of("[" + "a".repeat(48) + "}"), ask, UNSUPPORTED);
-        }
+        refused(Mill.of("["), question.of(0), UNSUPPORTED);
+        refused(Mill.of("{}"), question.of(0), UNSUPPORTED);
+        refused(Mill.of("[" + "a".repeat(48) + "}"), question.of(49), UNSUPPORTED);
+        refused(Mill.of("[" + "a".repeat(48) + "}"), question.of(0), UNSUPPORTED);
     }
 }

