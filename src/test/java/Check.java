@@ -77,6 +77,11 @@ class Check {
         }
     }
 
+    /** The same call, for the making of an object: an exception is an answer, too. */
+    static Ask quiet(Ask ask) {
+        return new Ask(ask.name(), m -> answer(m, ask));
+    }
+
     static void due(String what, Object want, Call call) {
         compare("", what, answer(call), want);
     }
@@ -125,9 +130,8 @@ class Check {
         if (made(mill) == null) {
             return;
         }
-        Ask quietly = new Ask(ask.name() + " refused", m -> answer(m, ask));
         String before = everything(mill) + probes(mill);
-        String behind = everything(mill.then(quietly)) + probes(mill.then(quietly));
+        String behind = everything(mill.then(quiet(ask))) + probes(mill.then(quiet(ask)));
         compare(mill, "what changed behind " + ask, firstDifference(behind, before), "none");
     }
 

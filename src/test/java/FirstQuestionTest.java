@@ -2,7 +2,8 @@ import java.util.Map;
 
 /**
  * Every question is asked as the first one behind each kind of change, of an object that was asked before and of one
- * that was not: no answer may depend on what was asked before.
+ * that was not, and of a text that takes the place of another one that was asked: no answer may depend on what was
+ * asked before.
  */
 public final class FirstQuestionTest extends Check {
     private static final String TEXT = "[a b-}fiAB 12 fin- Cde";
@@ -16,6 +17,12 @@ public final class FirstQuestionTest extends Check {
 
     private static final String[] CHANGES = {
         "none", "add", "add a wide word", "removeLast", "setWidth", "setLine", "setBase", "addLigature",
+    };
+
+    /** With the line width 10: without lines, with lines that are not possible, and with one line or several. */
+    private static final String[] TEXTS = {
+        "", " ", "   ", "[ } ", "a", "a ", " a", "  aa", "  aa b c", "aa bb", "a b c", "aa-b- c", "aaaa", "aa aaaa b",
+        "  aaaa", "{AB 12} c", "fi Afi", "1 [A", "- -- -", "[a {b 1}",
     };
 
     public static void main(String[] args) {
@@ -34,7 +41,25 @@ public final class FirstQuestionTest extends Check {
         for (Ask question : QUESTIONS) {
             due(again, question, answer(Mill.NEW.make(), question));
         }
+        for (String before : TEXTS) {
+            for (String text : TEXTS) {
+                anotherText(before, text);
+            }
+        }
         end();
+    }
+
+    /** The second text is typed where the first one was asked and removed. */
+    private static void anotherText(String before, String text) {
+        says("all questions of \"" + text + "\" behind \"" + before + "\"");
+        Mill asked = Mill.NEW.line(10).rule('f', 'i', 5).type(before).then(glyphs(), quiet(linesByTrying()));
+        Naive naive = new Naive();
+        naive.lineWidth = 10;
+        naive.rules.add(new int[] {'f', 'i', 5});
+        naive.text = text;
+        String want = naive.everything();
+        Mill mill = asked.cut(before.length()).type(text);
+        due("all answers (got but due) of " + mill, "none", () -> firstDifference(everything(mill), want));
     }
 
     private static Mill changed(Mill mill, String change) {

@@ -10,6 +10,7 @@ public final class LinesTest extends Check {
         demeritsOfHyphens();
         leastDemerits();
         fewestLines();
+        fewestLinesOfFewBreaks();
         endsEarlier();
         linesCounted();
         firstFit();
@@ -216,6 +217,30 @@ public final class LinesTest extends Check {
         dueLines(Mill.of("c-a b c-a-a-b-c-a a c a-c-c-c a-a-").line(15).width('a', 1).width('b', 2).width('c', 3)
                 .width(' ', 2).width('-', 5), 400110907, "0 6 10 14 22 26 30",
                 "13 14 13 17 14 11 12", "100 10000 10000 100 10000 10000 0");
+    }
+
+    /** The same where both ways of finding the lines are asked: few break places, and found by a search, too. */
+    private static void fewestLinesOfFewBreaks() {
+        says("of several, those with the fewest lines (promise 31: linesByTrying returns the same as lines)");
+        // 49 + 4 with two lines, 36 + 16 + 1 with three
+        Mill six = Mill.of("a    a b c c    c   b").line(27).width('a', 6).width('b', 2).width('c', 1).width(' ', 3);
+        due(six, breaks(), 6);
+        dueLines(six, 53, "0 9", "29 29", "6 1");
+        // 25 + 1 with two lines, 9 + 16 + 1 with three
+        Mill eight = Mill.of("a b    c    d  e a f f c").line(37).width('b', 6).width('c', 3).width('d', 1).width('e', 5)
+                .width('f', 10).width(' ', 2);
+        due(eight, breaks(), 8);
+        dueLines(eight, 26, "0 17", "41 33", "4 0");
+        // 16 + 1 + 1 with three lines, 4 + 9 + 4 + 1 with four
+        Mill nine = Mill.of("a a b b b    c a d d e").line(14).width('a', 5).width('b', 1).width('d', 3).width('e', 2)
+                .width(' ', 1);
+        due(nine, breaks(), 9);
+        dueLines(nine, 18, "0 8 17", "15 15 10", "3 0 0");
+        // 49 + 4 with two lines, 36 + 16 + 1 with three, and hyphens inside them
+        Mill hyphens = Mill.of("a a   b a a a-c-c c  a").line(22).width('a', 2).width('b', 3).width('c', 1).width('-', 1)
+                .width(' ', 3);
+        due(hyphens, breaks(), 9);
+        dueLines(hyphens, 53, "0 10", "24 23", "6 1");
     }
 
     private static void endsEarlier() {

@@ -53,7 +53,7 @@ public final class ModelTest extends Check {
     /** The same change of all: of the naive telling, of the object that is asked, and of those that are made anew. */
     private void change(Ask ask, Object want, boolean isRefused) {
         due(ask + " behind " + mill, want, () -> ask.put(live));
-        mill = mill.then(isRefused ? new Ask(ask.name(), m -> answer(m, ask)) : ask);
+        mill = mill.then(isRefused ? quiet(ask) : ask);
     }
 
     private void step() {
